@@ -691,8 +691,11 @@ public final class BindingServer {
         /** What := binds in a comprehension belongs outside of it. */
         int outsideComprehensions(int s) {
             int outer = s;
-            while (outer > 0 && outer < count && sort[outer] == COMPREHENSION) {
-                outer = Math.min(outer - 1, parent[outer]);
+            for (int round = 0; round < count && outer >= 0 && outer < count; round++) {
+                if (sort[outer] != COMPREHENSION) {
+                    break;
+                }
+                outer = parent[outer];
             }
             return outer;
         }

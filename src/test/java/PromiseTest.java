@@ -146,6 +146,7 @@ public final class PromiseTest {
         rowIs("aZ_9 _", "NAME0-4 NAME5-6 NEWLINE6-6 END6-6");
         rowIs("1a", "NUMBER0-1 NAME1-2 NEWLINE2-2 END2-2");
         rowIs("a1 12if", "NAME0-2 NUMBER3-5 WORD5-7 NEWLINE7-7 END7-7");
+        rowIs("0 90", "NUMBER0-1 NUMBER2-4 NEWLINE4-4 END4-4");
         rowIs("12_3", "NUMBER0-2 NAME2-4 NEWLINE4-4 END4-4");
         rowIs("::=", "SIGN0-1 SIGN1-3 NEWLINE3-3 END3-3");
         rowIs(":==", "SIGN0-2 SIGN2-3 NEWLINE3-3 END3-3");
@@ -255,6 +256,9 @@ public final class PromiseTest {
         checkIs("a\n b", 20, 3);
         checkIs(" a", 20, 1);
         checkIs("if a:\n   b\n  c", 20, 13);
+        checkIs("def pass\n)", 20, 4);
+        checkIs("class pass\n)", 20, 6);
+        checkIs("[a for pass in b\n)", 20, 7);
         checkIs("a ?", 20, 2);
         checkIs("?", 20, 0);
         checkIs("in", 20, 0);
@@ -273,6 +277,13 @@ public final class PromiseTest {
         checkIs("((((((((((lambda:a", 21, 10);
         checkIs("((((((((((a+lambda:a", 20, 12);
         checkIs("a=(((((((((((", 21, 12);
+        checkIs("f(".repeat(11), 21, 21);
+        checkIs("f(a,".repeat(11), 21, 41);
+        checkIs("(a:=".repeat(11), 21, 40);
+        checkIs("[a for b in ".repeat(11), 21, 120);
+        checkIs("[".repeat(10) + "(a) for b in c]", 21, 10);
+        checkIs("[[[[[[[[[(a) for b in(((c", 21, 22);
+        fine("[[[[[[[[[(a) for b in(c)]]]]]]]]]", "f(f(f(f(f(f(f(f(f((a),[b]+c())))))))))");
         fine("lambda:".repeat(10) + "a", "lambda:".repeat(9) + "(a)+(b)+c()");
         checkIs("lambda:".repeat(11) + "a", 21, 70);
         checkIs("lambda:".repeat(10) + "a()", 21, 71);
@@ -324,7 +335,8 @@ public final class PromiseTest {
         fine("class A:[lambda:(a:=1) for b in c]", "class A:(a:=1)");
         checkIs("[(a:=1) for a in b]", 9, 2);
         checkIs("[[(a:=1) for b in c] for a in d]", 9, 3);
-        fine("[lambda:(a:=1) for a in b]", "[(a:=1) for b in c]", "[(a:=1) for b in c]+[a for a in c]");
+        fine("[lambda:(a:=1) for a in b]", "[(a:=1) for b in c]", "[(a:=1) for b in c]+[a for a in c]",
+            "[a for b in c]+(d:=1)");
         checkIs("[a for b in (c:=1)]", 10, 13);
         checkIs("[a for b in lambda:(c:=1)]", 10, 20);
         checkIs("[a for b in [(c:=1) for d in e]]", 10, 14);
@@ -378,6 +390,8 @@ public final class PromiseTest {
         extentsAre("[a for b in c]", 12, "c [a for b in c]");
         extentsAre("lambda a:b+c", 7, "lambda a:b+c");
         extentsAre("lambda a:b+c", 9, "b b+c lambda a:b+c");
+        extentsAre("x=lambda a:b", 5, "lambda a:b x=lambda a:b");
+        extentsAre("f(lambda:b)", 2, "lambda:b f(lambda:b)");
         extentsAre("pass # x", 3, "pass");
         extentsAre("pass # x", 4, "");
         extentsAre("if a:b=c\n\nd", 5, "if a:b=c");
@@ -504,6 +518,8 @@ public final class PromiseTest {
         resolveIs(nonlocal, 39, what(3, 1, 2));
         resolveIs("[a for a in a]", 1, what(1, 1, 1));
         resolveIs("[a for a in a]", 7, what(1, 1, 1));
+        resolveIs("[lambda:a for a in a]", 14, what(2, 1, 1));
+        resolveIs("[lambda:a for a in a]", 8, what(3, 1, 2));
         resolveIs("[a for a in a]", 12, what(6, 0, 0));
         resolveIs("lambda:[(a:=b) for b in a]", 9, what(1, 1, 1));
         resolveIs("lambda:[(a:=b)+a for b in a]", 15, what(3, 1, 2));
@@ -540,6 +556,7 @@ public final class PromiseTest {
         definitionIs("a\na=1\na=2", 0, 2);
         definitionIs("a\na=1\na=2", 6, 2);
         definitionIs("a", 0, NONE);
+        definitionIs("a=1", 0, 0);
         definitionIs("a=1", 1, NONE);
         definitionIs("def f(ab):\n ab=1\n ab", 18, 6);
         definitionIs("def f(ab):\n ab=1\n ab", 19, 6);
@@ -569,6 +586,7 @@ public final class PromiseTest {
             }
         }
         BindingServer x = Due.server(text);
+        DUE.is("of the first occurrence", x.reference(4, 0), 4);
         DUE.is("of the module", x.reference(25, 0), 25);
         DUE.is("of the module", x.reference(25, 1), NONE);
         DUE.is("of no occurrence", x.reference(7, 0), NONE);
@@ -654,6 +672,8 @@ public final class PromiseTest {
             {"class A:\n b=1\n c=2\n", "10", "c"},
             {"def f(a):\n def g():\n  global b\n  b=1\n  a\n", "6", "b"},
         };
+        renameIs("a=1\nbb", 0, "bb", CONFLICT, "a=1\nbb");
+        renameIs("aa=1\nb", 0, "b", CONFLICT, "aa=1\nb");
         for (String[] row : rows) {
             renameIs(row[0], Integer.parseInt(row[1]), row[2], CONFLICT, row[0]);
         }
@@ -702,6 +722,15 @@ public final class PromiseTest {
         DUE.is("place() after a mending", x.place(), NONE);
         DUE.is("refused edit", x.edit(9, 0, ')'), NONE);
         DUE.is("check() after a refused edit", x.check(), 0);
+        x.edit(0, 7, '(');
+        DUE.is("tokens() while open", x.tokens(), 3);
+        x.edit(0, 1, Due.eight("a\nb"));
+        DUE.is("tokens() of another text", x.tokens(), 5);
+        DUE.is("extents of another text", x.extent(0, 1), NONE);
+        x.edit(0, 3, Due.eight("b=b+cc\n"));
+        DUE.is("extent(2, 2)", x.extent(2, 2), 256 * 6);
+        DUE.is("extent(2, 3)", x.extent(2, 3), NONE);
+        DUE.is("names() of another text", x.names(), 3);
         BindingServer other = new BindingServer();
         DUE.is("objects share nothing", other.names(), 0);
         DUE.is("nor does the first lose", x.names(), 3);
