@@ -1,13 +1,27 @@
 /** What the tests share: putting texts into servers, and holding answers against those due. */
 final class Due {
+    static final int NONE = -1;
+    static final int FULL = -2;
+    static final int FIXED = -3;
+    static final int CONFLICT = -4;
+    /** Arguments that are no place and no number of anything in a short text. */
+    static final int[] FAR = {-1, -2, Integer.MIN_VALUE, Integer.MAX_VALUE, 200, 201, 4096};
+
+    private static final String[] KINDS = {
+        "NAME", "NUMBER", "WORD", "SIGN", "NEWLINE", "INDENT", "DEDENT", "END", "BAD"};
+
     private int wrong = 0;
     private int held = 0;
+    private int sentences = 0;
+    private int heldBefore = 0;
+    private String sentence = "";
+
+    // ---- single answers
 
     void is(String what, long got, long want) {
         held++;
         if (got != want) {
-            wrong++;
-            System.out.println(what + " answered " + got + ", due is " + want);
+            tell(what + " answered " + got + ", due is " + want);
         }
     }
 
@@ -18,21 +32,43 @@ final class Due {
     void same(String what, String got, String want) {
         held++;
         if (!got.equals(want)) {
-            wrong++;
-            System.out.println(what + " answered " + shown(got) + ", due is " + shown(want));
+            tell(what + " answered " + shown(got) + ", due is " + shown(want));
         }
     }
 
-    static String shown(String text) {
-        return "[" + text.replace("\n", "\\n") + "]";
+    private void tell(String fault) {
+        wrong++;
+        System.out.println(fault + (sentence.isEmpty() ? "" : "  -- the document: " + sentence));
+    }
+
+    /** The words of the document that the answers from here on are to show. */
+    void says(String words) {
+        closeSentence();
+        sentence = words;
+        sentences++;
+        heldBefore = held;
+    }
+
+    private void closeSentence() {
+        if (sentences > 0 && held == heldBefore) {
+            tell("nothing was asked");
+        }
     }
 
     /** Ends the test with the exit code that tells whether all was as due. */
     void end(String test) {
-        System.out.println(test + ": " + held + " answers, " + wrong + " not as due");
+        closeSentence();
+        System.out.println(test + ": " + (sentences > 0 ? sentences + " sentences, " : "")
+            + held + " answers, " + wrong + " not as due");
         if (wrong != 0 || held == 0) {
             System.exit(1);
         }
+    }
+
+    // ---- texts
+
+    static String shown(String text) {
+        return "[" + text.replace("\n", "\\n") + "]";
     }
 
     /** The bytes of a long, from the highest to the lowest. */
@@ -58,5 +94,108 @@ final class Due {
             text.append((char) server.character(p));
         }
         return text.toString();
+    }
+
+    /** What resolve answers. */
+    static int what(int kind, int of, int belongs) {
+        return kind + 8 * of + 512 * belongs;
+    }
+
+    // ---- the answers of a text that is put into a new object
+
+    void rowIs(String text, String want) {
+        BindingServer x = server(text);
+        StringBuilder row = new StringBuilder();
+        for (int k = 0; k < x.tokens(); k++) {
+            int t = x.token(k);
+            row.append(k == 0 ? "" : " ").append(KINDS[t & 15]).append(t >> 4 & 255)
+                .append('-').append(t >> 12);
+        }
+        same("tokens of " + shown(text), row.toString(), want);
+    }
+
+    /** The kinds of the tokens alone, without NEWLINE and END. */
+    void kindsAre(String text, String want) {
+        BindingServer x = server(text);
+        StringBuilder row = new StringBuilder();
+        for (int k = 0; k < x.tokens(); k++) {
+            int kind = x.token(k) & 15;
+            if (kind != 4 && kind != 7) {
+                row.append(row.length() == 0 ? "" : " ").append(KINDS[kind]);
+            }
+        }
+        same("kinds of the tokens of " + shown(text), row.toString(), want);
+    }
+
+    void checkIs(String text, int code, int place) {
+        BindingServer x = server(text);
+        is("check() of " + shown(text), x.check(), code);
+        is("place() of " + shown(text), x.place(), place);
+    }
+
+    void fine(String... texts) {
+        for (String text : texts) {
+            checkIs(text, 0, NONE);
+        }
+    }
+
+    /** All extents that hold a place, the smallest first, as the characters in them. */
+    void extentsAre(String text, int p, String... want) {
+        BindingServer x = server(text);
+        String at = " of " + shown(text) + " at " + p;
+        for (int k = 0; k < want.length; k++) {
+            int e = x.extent(p, k);
+            String got = e == NONE ? "none" : text.substring(e & 255, e >> 8);
+            same("extent " + k + at, got, want[k]);
+        }
+        is("extent " + want.length + at, x.extent(p, want.length), NONE);
+    }
+
+    void scopesAre(String text, int... want) {
+        BindingServer x = server(text);
+        is("scopes() of " + shown(text), x.scopes(), want.length);
+        for (int k = 0; k < want.length; k++) {
+            is("scope(" + k + ") of " + shown(text), x.scope(k), want[k]);
+        }
+        is("scope behind the last of " + shown(text), x.scope(want.length), NONE);
+    }
+
+    void namesAre(String text, int... want) {
+        BindingServer x = server(text);
+        is("names() of " + shown(text), x.names(), want.length);
+        for (int k = 0; k < want.length; k++) {
+            is("name(" + k + ") of " + shown(text), x.name(k), want[k]);
+        }
+        is("name behind the last of " + shown(text), x.name(want.length), NONE);
+    }
+
+    void resolveIs(String text, int p, int want) {
+        is("resolve(" + p + ") of " + shown(text), server(text).resolve(p), want);
+    }
+
+    void definitionIs(String text, int p, int want) {
+        is("definition(" + p + ") of " + shown(text), server(text).definition(p), want);
+    }
+
+    void referencesAre(String text, int p, int... want) {
+        BindingServer x = server(text);
+        for (int k = 0; k < want.length; k++) {
+            is("reference(" + p + ", " + k + ") of " + shown(text), x.reference(p, k), want[k]);
+        }
+        is("reference(" + p + ", " + want.length + ") of " + shown(text),
+            x.reference(p, want.length), NONE);
+    }
+
+    void renameIs(String text, int p, String name, int want, String after) {
+        BindingServer x = server(text);
+        String call = "rename(" + p + ", " + name + ") of " + shown(text);
+        is(call, x.rename(p, eight(name)), want);
+        same(call + " leaves", textOf(x), after);
+        is(call + " leaves fine", x.check(), server(after).check());
+        is(call + " leaves tokens", x.tokens(), server(after).tokens());
+    }
+
+    void renameRefused(String text, int p, String name, int refusal) {
+        renameIs(text, p, name, refusal, text);
     }
 }

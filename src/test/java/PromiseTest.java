@@ -1,12 +1,10 @@
 /** The promises one by one, with answers worked out by hand from the document. */
 public final class PromiseTest {
-    private static final int NONE = -1;
-    private static final int FULL = -2;
-    private static final int FIXED = -3;
-    private static final int CONFLICT = -4;
-    private static final int[] FAR = {-1, -2, Integer.MIN_VALUE, Integer.MAX_VALUE, 200, 201, 4096};
-    private static final String[] KINDS = {
-        "NAME", "NUMBER", "WORD", "SIGN", "NEWLINE", "INDENT", "DEDENT", "END", "BAD"};
+    private static final int NONE = Due.NONE;
+    private static final int FULL = Due.FULL;
+    private static final int FIXED = Due.FIXED;
+    private static final int CONFLICT = Due.CONFLICT;
+    private static final int[] FAR = Due.FAR;
 
     private static final Due DUE = new Due();
 
@@ -125,44 +123,29 @@ public final class PromiseTest {
 
     // ---- promises 5 and 6
 
-    private static String row(String text) {
-        BindingServer x = Due.server(text);
-        StringBuilder row = new StringBuilder();
-        for (int k = 0; k < x.tokens(); k++) {
-            int t = x.token(k);
-            row.append(k == 0 ? "" : " ").append(KINDS[t & 15]).append(t >> 4 & 255)
-                .append('-').append(t >> 12);
-        }
-        return row.toString();
-    }
-
-    private static void rowIs(String text, String want) {
-        DUE.same("tokens of " + Due.shown(text), row(text), want);
-    }
-
     private static void tokensOfLines() {
-        rowIs("", "END0-0");
-        rowIs("  \n # a\n\n", "END9-9");
-        rowIs("aZ_9 _", "NAME0-4 NAME5-6 NEWLINE6-6 END6-6");
-        rowIs("1a", "NUMBER0-1 NAME1-2 NEWLINE2-2 END2-2");
-        rowIs("a1 12if", "NAME0-2 NUMBER3-5 WORD5-7 NEWLINE7-7 END7-7");
-        rowIs("0 90", "NUMBER0-1 NUMBER2-4 NEWLINE4-4 END4-4");
-        rowIs("12_3", "NUMBER0-2 NAME2-4 NEWLINE4-4 END4-4");
-        rowIs("::=", "SIGN0-1 SIGN1-3 NEWLINE3-3 END3-3");
-        rowIs(":==", "SIGN0-2 SIGN2-3 NEWLINE3-3 END3-3");
-        rowIs(": =", "SIGN0-1 SIGN2-3 NEWLINE3-3 END3-3");
-        rowIs("[](),+", "SIGN0-1 SIGN1-2 SIGN2-3 SIGN3-4 SIGN4-5 SIGN5-6 NEWLINE6-6 END6-6");
-        rowIs("a?$-", "NAME0-1 BAD1-2 BAD2-3 BAD3-4 NEWLINE4-4 END4-4");
-        rowIs("a #(\nb", "NAME0-1 NEWLINE1-1 NAME5-6 NEWLINE6-6 END6-6");
-        rowIs("a  \n", "NAME0-1 NEWLINE1-1 END4-4");
-        rowIs("(\n a # )\n)\nb", "SIGN0-1 NAME3-4 SIGN9-10 NEWLINE10-10 NAME11-12 NEWLINE12-12 END12-12");
-        rowIs("[\n\n", "SIGN0-1 NEWLINE1-1 END3-3");
-        rowIs("(]\na", "SIGN0-1 SIGN1-2 NEWLINE2-2 NAME3-4 NEWLINE4-4 END4-4");
-        rowIs(")(\na", "SIGN0-1 SIGN1-2 NAME3-4 NEWLINE4-4 END4-4");
+        DUE.rowIs("", "END0-0");
+        DUE.rowIs("  \n # a\n\n", "END9-9");
+        DUE.rowIs("aZ_9 _", "NAME0-4 NAME5-6 NEWLINE6-6 END6-6");
+        DUE.rowIs("1a", "NUMBER0-1 NAME1-2 NEWLINE2-2 END2-2");
+        DUE.rowIs("a1 12if", "NAME0-2 NUMBER3-5 WORD5-7 NEWLINE7-7 END7-7");
+        DUE.rowIs("0 90", "NUMBER0-1 NUMBER2-4 NEWLINE4-4 END4-4");
+        DUE.rowIs("12_3", "NUMBER0-2 NAME2-4 NEWLINE4-4 END4-4");
+        DUE.rowIs("::=", "SIGN0-1 SIGN1-3 NEWLINE3-3 END3-3");
+        DUE.rowIs(":==", "SIGN0-2 SIGN2-3 NEWLINE3-3 END3-3");
+        DUE.rowIs(": =", "SIGN0-1 SIGN2-3 NEWLINE3-3 END3-3");
+        DUE.rowIs("[](),+", "SIGN0-1 SIGN1-2 SIGN2-3 SIGN3-4 SIGN4-5 SIGN5-6 NEWLINE6-6 END6-6");
+        DUE.rowIs("a?$-", "NAME0-1 BAD1-2 BAD2-3 BAD3-4 NEWLINE4-4 END4-4");
+        DUE.rowIs("a #(\nb", "NAME0-1 NEWLINE1-1 NAME5-6 NEWLINE6-6 END6-6");
+        DUE.rowIs("a  \n", "NAME0-1 NEWLINE1-1 END4-4");
+        DUE.rowIs("(\n a # )\n)\nb", "SIGN0-1 NAME3-4 SIGN9-10 NEWLINE10-10 NAME11-12 NEWLINE12-12 END12-12");
+        DUE.rowIs("[\n\n", "SIGN0-1 NEWLINE1-1 END3-3");
+        DUE.rowIs("(]\na", "SIGN0-1 SIGN1-2 NEWLINE2-2 NAME3-4 NEWLINE4-4 END4-4");
+        DUE.rowIs(")(\na", "SIGN0-1 SIGN1-2 NAME3-4 NEWLINE4-4 END4-4");
         for (String word : new String[] {"class", "def", "del", "else", "for", "global", "if", "import",
             "in", "lambda", "nonlocal", "pass", "return", "while"}) {
             int n = word.length();
-            rowIs(word, "WORD0-" + n + " NEWLINE" + n + "-" + n + " END" + n + "-" + n);
+            DUE.rowIs(word, "WORD0-" + n + " NEWLINE" + n + "-" + n + " END" + n + "-" + n);
             DUE.is(word + "_ is a name", Due.server(word + "_").token(0) & 15, 0);
             DUE.is("_" + word + " is a name", Due.server("_" + word).token(0) & 15, 0);
         }
@@ -171,16 +154,16 @@ public final class PromiseTest {
     }
 
     private static void tokensOfIndentation() {
-        rowIs(" a\nb", "INDENT1-1 NAME1-2 NEWLINE2-2 DEDENT3-3 NAME3-4 NEWLINE4-4 END4-4");
-        rowIs("a\n  b\n c\n d", "NAME0-1 NEWLINE1-1 INDENT4-4 NAME4-5 NEWLINE5-5 DEDENT7-7 BAD7-7"
+        DUE.rowIs(" a\nb", "INDENT1-1 NAME1-2 NEWLINE2-2 DEDENT3-3 NAME3-4 NEWLINE4-4 END4-4");
+        DUE.rowIs("a\n  b\n c\n d", "NAME0-1 NEWLINE1-1 INDENT4-4 NAME4-5 NEWLINE5-5 DEDENT7-7 BAD7-7"
             + " NAME7-8 NEWLINE8-8 INDENT10-10 NAME10-11 NEWLINE11-11 DEDENT11-11 END11-11");
-        rowIs("a\n b\n  c\nd", "NAME0-1 NEWLINE1-1 INDENT3-3 NAME3-4 NEWLINE4-4 INDENT7-7 NAME7-8"
+        DUE.rowIs("a\n b\n  c\nd", "NAME0-1 NEWLINE1-1 INDENT3-3 NAME3-4 NEWLINE4-4 INDENT7-7 NAME7-8"
             + " NEWLINE8-8 DEDENT9-9 DEDENT9-9 NAME9-10 NEWLINE10-10 END10-10");
-        rowIs(" a\n  b\n", "INDENT1-1 NAME1-2 NEWLINE2-2 INDENT5-5 NAME5-6 NEWLINE6-6"
+        DUE.rowIs(" a\n  b\n", "INDENT1-1 NAME1-2 NEWLINE2-2 INDENT5-5 NAME5-6 NEWLINE6-6"
             + " DEDENT7-7 DEDENT7-7 END7-7");
-        rowIs(" a\n   # x\n\n b", "INDENT1-1 NAME1-2 NEWLINE2-2 NAME12-13 NEWLINE13-13"
+        DUE.rowIs(" a\n   # x\n\n b", "INDENT1-1 NAME1-2 NEWLINE2-2 NAME12-13 NEWLINE13-13"
             + " DEDENT13-13 END13-13");
-        rowIs("  1\n ?", "INDENT2-2 NUMBER2-3 NEWLINE3-3 DEDENT5-5 BAD5-5 BAD5-6 NEWLINE6-6 END6-6");
+        DUE.rowIs("  1\n ?", "INDENT2-2 NUMBER2-3 NEWLINE3-3 DEDENT5-5 BAD5-5 BAD5-6 NEWLINE6-6 END6-6");
         String saw = "a\n a\n".repeat(40);
         BindingServer x = Due.server(saw);
         DUE.is("tokens() of a full saw", x.tokens(), 241);
@@ -200,212 +183,186 @@ public final class PromiseTest {
 
     // ---- promises 7 and 8
 
-    private static void checkIs(String text, int code, int place) {
-        BindingServer x = Due.server(text);
-        DUE.is("check() of " + Due.shown(text), x.check(), code);
-        DUE.is("place() of " + Due.shown(text), x.place(), place);
-    }
-
-    private static void fine(String... texts) {
-        for (String text : texts) {
-            checkIs(text, 0, NONE);
-        }
-    }
-
     private static void faults() {
-        fine("", "pass", "pass\n", "global a,b\n", "del a", "import a", "a=lambda:a", "a+1+(b)+[c]",
+        DUE.fine("", "pass", "pass\n", "global a,b\n", "del a", "import a", "a=lambda:a", "a+1+(b)+[c]",
             "1(2)(3,4)()", "[a for b in c]", "(a:=lambda b,c:d)", "f((a:=1))", "f(\n a,\n b\n)\n",
             "def f():pass", "def f(a,b):\n return\n", "class A:pass\n", "if a:b", "if a:b\nelse:c\n",
             "if a:\n if b:\n  c\n else:\n  d\nelse:\n e", "while lambda:a:b", "for a in b:\n c\n d\n",
             "[lambda:a for b in lambda:c]", "f(lambda a,b:c,d)", "[1for a in 1]");
-        checkIs("a b", 20, 2);
-        checkIs("a=b=c", 20, 3);
-        checkIs("(a)=b", 20, 3);
-        checkIs("a+", 20, 2);
-        checkIs("a+lambda:b", 20, 2);
-        checkIs("()", 20, 1);
-        checkIs("[]", 20, 1);
-        checkIs("[a,b]", 20, 2);
-        checkIs("[a:=b]", 20, 2);
-        checkIs("f(a:=b)", 20, 3);
-        checkIs("f(a,)", 20, 4);
-        checkIs("(a+b:=c)", 20, 4);
-        checkIs("(a", 20, 2);
-        checkIs("(a\n\n", 20, 2);
-        checkIs("[a for b in c)", 20, 13);
-        checkIs("[a for 1 in c]", 20, 7);
-        checkIs("global", 20, 6);
-        checkIs("global a,", 20, 9);
-        checkIs("del a,b", 20, 5);
-        checkIs("pass pass", 20, 5);
-        checkIs("return pass", 20, 7);
-        checkIs("def f:pass", 20, 5);
-        checkIs("def f(a,):pass", 20, 8);
-        checkIs("def f(1):pass", 20, 6);
-        checkIs("def f()pass", 20, 7);
-        checkIs("lambda a,:b", 20, 9);
-        checkIs("class A():pass", 20, 7);
-        checkIs("if a:if b:c", 20, 5);
-        checkIs("if a:", 20, 5);
-        checkIs("if a:\n", 20, 6);
-        checkIs("if a:\nb", 20, 6);
-        checkIs("else:a", 20, 0);
-        checkIs("while a:b\nelse:c", 20, 10);
-        checkIs("if a:b\nelse:c\nelse:d", 20, 14);
-        checkIs("if a:b\nelse c", 20, 12);
-        checkIs("a\n b", 20, 3);
-        checkIs(" a", 20, 1);
-        checkIs("if a:\n   b\n  c", 20, 13);
-        checkIs("def pass\n)", 20, 4);
-        checkIs("class pass\n)", 20, 6);
-        checkIs("[a for pass in b\n)", 20, 7);
-        checkIs("a ?", 20, 2);
-        checkIs("?", 20, 0);
-        checkIs("in", 20, 0);
-        checkIs("a]", 20, 1);
-        checkIs("(a]\n)", 20, 2);
+        DUE.checkIs("a b", 20, 2);
+        DUE.checkIs("a=b=c", 20, 3);
+        DUE.checkIs("(a)=b", 20, 3);
+        DUE.checkIs("a+", 20, 2);
+        DUE.checkIs("a+lambda:b", 20, 2);
+        DUE.checkIs("()", 20, 1);
+        DUE.checkIs("[]", 20, 1);
+        DUE.checkIs("[a,b]", 20, 2);
+        DUE.checkIs("[a:=b]", 20, 2);
+        DUE.checkIs("f(a:=b)", 20, 3);
+        DUE.checkIs("f(a,)", 20, 4);
+        DUE.checkIs("(a+b:=c)", 20, 4);
+        DUE.checkIs("(a", 20, 2);
+        DUE.checkIs("(a\n\n", 20, 2);
+        DUE.checkIs("[a for b in c)", 20, 13);
+        DUE.checkIs("[a for 1 in c]", 20, 7);
+        DUE.checkIs("global", 20, 6);
+        DUE.checkIs("global a,", 20, 9);
+        DUE.checkIs("del a,b", 20, 5);
+        DUE.checkIs("pass pass", 20, 5);
+        DUE.checkIs("return pass", 20, 7);
+        DUE.checkIs("def f:pass", 20, 5);
+        DUE.checkIs("def f(a,):pass", 20, 8);
+        DUE.checkIs("def f(1):pass", 20, 6);
+        DUE.checkIs("def f()pass", 20, 7);
+        DUE.checkIs("lambda a,:b", 20, 9);
+        DUE.checkIs("class A():pass", 20, 7);
+        DUE.checkIs("if a:if b:c", 20, 5);
+        DUE.checkIs("if a:", 20, 5);
+        DUE.checkIs("if a:\n", 20, 6);
+        DUE.checkIs("if a:\nb", 20, 6);
+        DUE.checkIs("else:a", 20, 0);
+        DUE.checkIs("while a:b\nelse:c", 20, 10);
+        DUE.checkIs("if a:b\nelse:c\nelse:d", 20, 14);
+        DUE.checkIs("if a:b\nelse c", 20, 12);
+        DUE.checkIs("a\n b", 20, 3);
+        DUE.checkIs(" a", 20, 1);
+        DUE.checkIs("if a:\n   b\n  c", 20, 13);
+        DUE.checkIs("def pass\n)", 20, 4);
+        DUE.checkIs("class pass\n)", 20, 6);
+        DUE.checkIs("[a for pass in b\n)", 20, 7);
+        DUE.checkIs("a ?", 20, 2);
+        DUE.checkIs("?", 20, 0);
+        DUE.checkIs("in", 20, 0);
+        DUE.checkIs("a]", 20, 1);
+        DUE.checkIs("(a]\n)", 20, 2);
     }
 
     private static void faultsOfDepth() {
-        fine("((((((((((a))))))))))", "[[[[[[[[[[a]]]]]]]]]]", "f(f(f(f(f(f(f(f(f(f())))))))))");
-        checkIs("(((((((((((", 21, 10);
-        checkIs("[[[[[[[[[[[", 21, 10);
-        checkIs("((((((((((a(", 21, 11);
-        checkIs("((((((((((a[", 20, 11);
-        checkIs("((((((((((+(", 20, 10);
-        checkIs("((((((((((a+(", 21, 12);
-        checkIs("((((((((((lambda:a", 21, 10);
-        checkIs("((((((((((a+lambda:a", 20, 12);
-        checkIs("a=(((((((((((", 21, 12);
-        checkIs("f(".repeat(11), 21, 21);
-        checkIs("f(a,".repeat(11), 21, 41);
-        checkIs("(a:=".repeat(11), 21, 40);
-        checkIs("[a for b in ".repeat(11), 21, 120);
-        checkIs("[".repeat(10) + "(a) for b in c]", 21, 10);
-        checkIs("[[[[[[[[[(a) for b in(((c", 21, 22);
-        fine("[[[[[[[[[(a) for b in(c)]]]]]]]]]", "f(f(f(f(f(f(f(f(f((a),[b]+c())))))))))");
-        fine("lambda:".repeat(10) + "a", "lambda:".repeat(9) + "(a)+(b)+c()");
-        checkIs("lambda:".repeat(11) + "a", 21, 70);
-        checkIs("lambda:".repeat(10) + "a()", 21, 71);
-        checkIs("if a:((((((((((b", 21, 14);
-        fine("if a:(((((((((b)))))))))\nelse:(((((((((b)))))))))\n((((((((((c))))))))))");
-        fine("def f():(((((((((b)))))))))");
-        checkIs("class f:((((((((((b", 21, 17);
+        DUE.fine("((((((((((a))))))))))", "[[[[[[[[[[a]]]]]]]]]]", "f(f(f(f(f(f(f(f(f(f())))))))))");
+        DUE.checkIs("(((((((((((", 21, 10);
+        DUE.checkIs("[[[[[[[[[[[", 21, 10);
+        DUE.checkIs("((((((((((a(", 21, 11);
+        DUE.checkIs("((((((((((a[", 20, 11);
+        DUE.checkIs("((((((((((+(", 20, 10);
+        DUE.checkIs("((((((((((a+(", 21, 12);
+        DUE.checkIs("((((((((((lambda:a", 21, 10);
+        DUE.checkIs("((((((((((a+lambda:a", 20, 12);
+        DUE.checkIs("a=(((((((((((", 21, 12);
+        DUE.checkIs("f(".repeat(11), 21, 21);
+        DUE.checkIs("f(a,".repeat(11), 21, 41);
+        DUE.checkIs("(a:=".repeat(11), 21, 40);
+        DUE.checkIs("[a for b in ".repeat(11), 21, 120);
+        DUE.checkIs("[".repeat(10) + "(a) for b in c]", 21, 10);
+        DUE.checkIs("[[[[[[[[[(a) for b in(((c", 21, 22);
+        DUE.fine("[[[[[[[[[(a) for b in(c)]]]]]]]]]", "f(f(f(f(f(f(f(f(f((a),[b]+c())))))))))");
+        DUE.fine("lambda:".repeat(10) + "a", "lambda:".repeat(9) + "(a)+(b)+c()");
+        DUE.checkIs("lambda:".repeat(11) + "a", 21, 70);
+        DUE.checkIs("lambda:".repeat(10) + "a()", 21, 71);
+        DUE.checkIs("if a:((((((((((b", 21, 14);
+        DUE.fine("if a:(((((((((b)))))))))\nelse:(((((((((b)))))))))\n((((((((((c))))))))))");
+        DUE.fine("def f():(((((((((b)))))))))");
+        DUE.checkIs("class f:((((((((((b", 21, 17);
         StringBuilder deep = new StringBuilder();
         for (int i = 0; i < 10; i++) {
             deep.append(" ".repeat(i)).append("if a:\n");
         }
         String ten = deep.toString() + " ".repeat(10);
-        fine(ten + "b", deep.substring(0, deep.length() - 1) + "b\n         else:c");
-        checkIs(ten + "(b)", 21, ten.length());
-        checkIs(ten + "lambda:b", 21, ten.length());
-        checkIs(ten + "if b:c", 21, ten.length() + 4);
-        checkIs(ten + "def f():c", 21, ten.length() + 7);
-        checkIs(ten + "def f()):c", 20, ten.length() + 7);
-        checkIs(ten + "if (b):c", 21, ten.length() + 3);
+        DUE.fine(ten + "b", deep.substring(0, deep.length() - 1) + "b\n         else:c");
+        DUE.checkIs(ten + "(b)", 21, ten.length());
+        DUE.checkIs(ten + "lambda:b", 21, ten.length());
+        DUE.checkIs(ten + "if b:c", 21, ten.length() + 4);
+        DUE.checkIs(ten + "def f():c", 21, ten.length() + 7);
+        DUE.checkIs(ten + "def f()):c", 20, ten.length() + 7);
+        DUE.checkIs(ten + "if (b):c", 21, ten.length() + 3);
     }
 
     private static void errors() {
-        checkIs("def f(a,b,a):pass", 1, 10);
-        checkIs("lambda a,a:b", 1, 9);
-        fine("def f(a):\n def f(a):pass\n", "lambda a:lambda a:b");
-        checkIs("def f(a):\n global a", 2, 18);
-        checkIs("def f(a):\n nonlocal a", 2, 20);
-        checkIs("def f(a):\n class B:\n  global a\n  a=1\n a", 0, NONE);
-        checkIs("a\nglobal a", 3, 9);
-        checkIs("def f():\n a=1\n global a", 3, 22);
-        checkIs("def f():\n [(a:=1) for b in c]\n global a", 3, 38);
-        fine("def f():\n [a for a in c]\n global a", "def f():\n lambda:a\n global a");
-        fine("global a\na=1", "global a,a\nglobal a", "a=1\ndef f():\n global a");
-        checkIs("nonlocal a", 4, 9);
-        checkIs("global a\nnonlocal a", 4, 18);
-        checkIs("def f():\n a=1\n def g():\n  global a\n  nonlocal a", 5, 46);
-        checkIs("def f():\n a=1\n def g():\n  nonlocal a\n  global a", 5, 46);
-        checkIs("def f():\n nonlocal a", 6, 19);
-        checkIs("a=1\ndef f():\n nonlocal a", 6, 23);
-        checkIs("class A:\n a=1\n def f():\n  nonlocal a", 6, 35);
-        checkIs("def f():\n a\n def g():\n  nonlocal a", 6, 33);
-        fine("def f():\n def g():\n  nonlocal a\n a=1\n", "def f(a):\n class B:\n  nonlocal a");
-        checkIs("return", 7, 0);
-        checkIs("class A:return 1", 7, 8);
-        checkIs("def f():\n class A:\n  if a:\n   return", 7, 30);
-        fine("def f():return", "def f():\n if a:\n  return b");
-        checkIs("class A:[(a:=1) for b in c]", 8, 10);
-        checkIs("class A:[[(a:=1) for b in c] for d in e]", 8, 11);
-        fine("class A:[lambda:(a:=1) for b in c]", "class A:(a:=1)");
-        checkIs("[(a:=1) for a in b]", 9, 2);
-        checkIs("[[(a:=1) for b in c] for a in d]", 9, 3);
-        fine("[lambda:(a:=1) for a in b]", "[(a:=1) for b in c]", "[(a:=1) for b in c]+[a for a in c]",
+        DUE.checkIs("def f(a,b,a):pass", 1, 10);
+        DUE.checkIs("lambda a,a:b", 1, 9);
+        DUE.fine("def f(a):\n def f(a):pass\n", "lambda a:lambda a:b");
+        DUE.checkIs("def f(a):\n global a", 2, 18);
+        DUE.checkIs("def f(a):\n nonlocal a", 2, 20);
+        DUE.checkIs("def f(a):\n class B:\n  global a\n  a=1\n a", 0, NONE);
+        DUE.checkIs("a\nglobal a", 3, 9);
+        DUE.checkIs("def f():\n a=1\n global a", 3, 22);
+        DUE.checkIs("def f():\n [(a:=1) for b in c]\n global a", 3, 38);
+        DUE.fine("def f():\n [a for a in c]\n global a", "def f():\n lambda:a\n global a");
+        DUE.fine("global a\na=1", "global a,a\nglobal a", "a=1\ndef f():\n global a");
+        DUE.checkIs("nonlocal a", 4, 9);
+        DUE.checkIs("global a\nnonlocal a", 4, 18);
+        DUE.checkIs("def f():\n a=1\n def g():\n  global a\n  nonlocal a", 5, 46);
+        DUE.checkIs("def f():\n a=1\n def g():\n  nonlocal a\n  global a", 5, 46);
+        DUE.checkIs("def f():\n nonlocal a", 6, 19);
+        DUE.checkIs("a=1\ndef f():\n nonlocal a", 6, 23);
+        DUE.checkIs("class A:\n a=1\n def f():\n  nonlocal a", 6, 35);
+        DUE.checkIs("def f():\n a\n def g():\n  nonlocal a", 6, 33);
+        DUE.fine("def f():\n def g():\n  nonlocal a\n a=1\n", "def f(a):\n class B:\n  nonlocal a");
+        DUE.checkIs("return", 7, 0);
+        DUE.checkIs("class A:return 1", 7, 8);
+        DUE.checkIs("def f():\n class A:\n  if a:\n   return", 7, 30);
+        DUE.fine("def f():return", "def f():\n if a:\n  return b");
+        DUE.checkIs("class A:[(a:=1) for b in c]", 8, 10);
+        DUE.checkIs("class A:[[(a:=1) for b in c] for d in e]", 8, 11);
+        DUE.fine("class A:[lambda:(a:=1) for b in c]", "class A:(a:=1)");
+        DUE.checkIs("[(a:=1) for a in b]", 9, 2);
+        DUE.checkIs("[[(a:=1) for b in c] for a in d]", 9, 3);
+        DUE.fine("[lambda:(a:=1) for a in b]", "[(a:=1) for b in c]", "[(a:=1) for b in c]+[a for a in c]",
             "[a for b in c]+(d:=1)");
-        checkIs("[a for b in (c:=1)]", 10, 13);
-        checkIs("[a for b in lambda:(c:=1)]", 10, 20);
-        checkIs("[a for b in [(c:=1) for d in e]]", 10, 14);
-        checkIs("[[a for b in (c:=1)] for d in e]", 10, 14);
-        checkIs("[a for b in (b:=1)]", 10, 13);
+        DUE.checkIs("[a for b in (c:=1)]", 10, 13);
+        DUE.checkIs("[a for b in lambda:(c:=1)]", 10, 20);
+        DUE.checkIs("[a for b in [(c:=1) for d in e]]", 10, 14);
+        DUE.checkIs("[[a for b in (c:=1)] for d in e]", 10, 14);
+        DUE.checkIs("[a for b in (b:=1)]", 10, 13);
     }
 
     private static void leastErrorFirst() {
-        checkIs("nonlocal a\nreturn", 4, 9);
-        checkIs("return\nnonlocal a", 7, 0);
-        checkIs("lambda a,a:b\nreturn", 1, 9);
-        checkIs("a\nnonlocal a", 3, 11);
-        checkIs("global a\na\nnonlocal a", 3, 20);
-        checkIs("class A:[[a for b in (c:=1)] for c in d]", 8, 22);
-        checkIs("[[a for b in (c:=1)] for c in d]", 9, 14);
-        checkIs("def f():\n a=1\n def g():\n  def h():\n   nonlocal a\n  global a", 6, 47);
+        DUE.checkIs("nonlocal a\nreturn", 4, 9);
+        DUE.checkIs("return\nnonlocal a", 7, 0);
+        DUE.checkIs("lambda a,a:b\nreturn", 1, 9);
+        DUE.checkIs("a\nnonlocal a", 3, 11);
+        DUE.checkIs("global a\na\nnonlocal a", 3, 20);
+        DUE.checkIs("class A:[[a for b in (c:=1)] for c in d]", 8, 22);
+        DUE.checkIs("[[a for b in (c:=1)] for c in d]", 9, 14);
+        DUE.checkIs("def f():\n a=1\n def g():\n  def h():\n   nonlocal a\n  global a", 6, 47);
     }
 
     // ---- promise 9
 
-    private static String extentsAt(String text, int p) {
-        BindingServer x = Due.server(text);
-        StringBuilder row = new StringBuilder();
-        for (int smaller = 0; x.extent(p, smaller) != NONE && smaller < 99; smaller++) {
-            int e = x.extent(p, smaller);
-            row.append(smaller == 0 ? "" : " ").append(text, e & 255, e >> 8);
-        }
-        return row.toString();
-    }
-
-    private static void extentsAre(String text, int p, String want) {
-        DUE.same("extents of " + Due.shown(text) + " at " + p, extentsAt(text, p), want);
-    }
-
     private static void extents() {
-        extentsAre("f(a)(b)", 0, "f f(a) f(a)(b)");
-        extentsAre("f(a)(b)", 1, "f(a) f(a)(b)");
-        extentsAre("f(a)(b)", 2, "a f(a) f(a)(b)");
-        extentsAre("f(a)(b)", 5, "b f(a)(b)");
-        extentsAre("f(a)(b)", 7, "");
-        extentsAre("a+b+c", 0, "a a+b a+b+c");
-        extentsAre("a+b+c", 1, "a+b a+b+c");
-        extentsAre("a+b+c", 2, "b a+b a+b+c");
-        extentsAre("a+b+c", 4, "c a+b+c");
-        extentsAre("a+f(b)", 2, "f f(b) a+f(b)");
-        extentsAre("x=(y:=z)", 0, "x=(y:=z)");
-        extentsAre("x=(y:=z)", 3, "(y:=z) x=(y:=z)");
-        extentsAre("x=(y:=z)", 6, "z (y:=z) x=(y:=z)");
-        extentsAre("[a for b in c]", 1, "a [a for b in c]");
-        extentsAre("[a for b in c]", 7, "[a for b in c]");
-        extentsAre("[a for b in c]", 12, "c [a for b in c]");
-        extentsAre("lambda a:b+c", 7, "lambda a:b+c");
-        extentsAre("lambda a:b+c", 9, "b b+c lambda a:b+c");
-        extentsAre("x=lambda a:b", 5, "lambda a:b x=lambda a:b");
-        extentsAre("f(lambda:b)", 2, "lambda:b f(lambda:b)");
-        extentsAre("pass # x", 3, "pass");
-        extentsAre("pass # x", 4, "");
-        extentsAre("if a:b=c\n\nd", 5, "if a:b=c");
-        extentsAre("if a:b=c\n\nd", 7, "c if a:b=c");
-        extentsAre("if a:b=c\n\nd", 8, "");
-        extentsAre("if a:\n b=c\n\nd", 7, "b=c if a:\n b=c");
-        extentsAre("if a:\n b=c\n\nd", 6, "if a:\n b=c");
-        extentsAre("if a:b\nelse:\n c\nd", 14, "c if a:b\nelse:\n c");
-        extentsAre("if a:b\nelse:\n c\nd", 16, "d");
-        extentsAre("def f(a):\n return b\n", 4, "def f(a):\n return b");
-        extentsAre("def f(a):\n return b\n", 18, "b return b def f(a):\n return b");
-        extentsAre("for a in b:\n pass\n", 4, "for a in b:\n pass");
-        extentsAre("for a in b:\n pass\n", 9, "b for a in b:\n pass");
-        extentsAre("return a", 7, "a return a");
+        DUE.extentsAre("f(a)(b)", 0, "f", "f(a)", "f(a)(b)");
+        DUE.extentsAre("f(a)(b)", 1, "f(a)", "f(a)(b)");
+        DUE.extentsAre("f(a)(b)", 2, "a", "f(a)", "f(a)(b)");
+        DUE.extentsAre("f(a)(b)", 5, "b", "f(a)(b)");
+        DUE.extentsAre("f(a)(b)", 7);
+        DUE.extentsAre("a+b+c", 0, "a", "a+b", "a+b+c");
+        DUE.extentsAre("a+b+c", 1, "a+b", "a+b+c");
+        DUE.extentsAre("a+b+c", 2, "b", "a+b", "a+b+c");
+        DUE.extentsAre("a+b+c", 4, "c", "a+b+c");
+        DUE.extentsAre("a+f(b)", 2, "f", "f(b)", "a+f(b)");
+        DUE.extentsAre("x=(y:=z)", 0, "x=(y:=z)");
+        DUE.extentsAre("x=(y:=z)", 3, "(y:=z)", "x=(y:=z)");
+        DUE.extentsAre("x=(y:=z)", 6, "z", "(y:=z)", "x=(y:=z)");
+        DUE.extentsAre("[a for b in c]", 1, "a", "[a for b in c]");
+        DUE.extentsAre("[a for b in c]", 7, "[a for b in c]");
+        DUE.extentsAre("[a for b in c]", 12, "c", "[a for b in c]");
+        DUE.extentsAre("lambda a:b+c", 7, "lambda a:b+c");
+        DUE.extentsAre("lambda a:b+c", 9, "b", "b+c", "lambda a:b+c");
+        DUE.extentsAre("x=lambda a:b", 5, "lambda a:b", "x=lambda a:b");
+        DUE.extentsAre("f(lambda:b)", 2, "lambda:b", "f(lambda:b)");
+        DUE.extentsAre("pass # x", 3, "pass");
+        DUE.extentsAre("pass # x", 4);
+        DUE.extentsAre("if a:b=c\n\nd", 5, "if a:b=c");
+        DUE.extentsAre("if a:b=c\n\nd", 7, "c", "if a:b=c");
+        DUE.extentsAre("if a:b=c\n\nd", 8);
+        DUE.extentsAre("if a:\n b=c\n\nd", 7, "b=c", "if a:\n b=c");
+        DUE.extentsAre("if a:\n b=c\n\nd", 6, "if a:\n b=c");
+        DUE.extentsAre("if a:b\nelse:\n c\nd", 14, "c", "if a:b\nelse:\n c");
+        DUE.extentsAre("if a:b\nelse:\n c\nd", 16, "d");
+        DUE.extentsAre("def f(a):\n return b\n", 4, "def f(a):\n return b");
+        DUE.extentsAre("def f(a):\n return b\n", 18, "b", "return b", "def f(a):\n return b");
+        DUE.extentsAre("for a in b:\n pass\n", 4, "for a in b:\n pass");
+        DUE.extentsAre("for a in b:\n pass\n", 9, "b", "for a in b:\n pass");
+        DUE.extentsAre("return a", 7, "a", "return a");
         BindingServer x = Due.server("f(a)");
         DUE.is("extent(2, 0)", x.extent(2, 0), 2 + 256 * 3);
         DUE.is("extent(2, 1)", x.extent(2, 1), 256 * 4);
@@ -421,25 +378,16 @@ public final class PromiseTest {
 
     // ---- promises 10 and 11
 
-    private static void scopesAre(String text, int... want) {
-        BindingServer x = Due.server(text);
-        DUE.is("scopes() of " + Due.shown(text), x.scopes(), want.length);
-        for (int k = 0; k < want.length; k++) {
-            DUE.is("scope(" + k + ") of " + Due.shown(text), x.scope(k), want[k]);
-        }
-        DUE.is("scope behind the last", x.scope(want.length), NONE);
-    }
-
     private static void scopes() {
-        scopesAre("a", 0);
-        scopesAre("def f():pass\nclass A:pass\nlambda:a\n[a for a in a]\n[a]", 0, 1, 2, 3, 4);
-        scopesAre("def f():\n class A:\n  lambda:[a for a in a]", 0, 1, 10, 19, 28);
-        scopesAre("[lambda:a for b in lambda:c]", 0, 4, 11, 3);
-        scopesAre("[[a for a in b] for c in [d for d in e]]", 0, 4, 12, 4);
-        scopesAre("[[a for a in [b for b in c]] for c in d]", 0, 4, 12, 12);
-        scopesAre("lambda:lambda:a", 0, 3, 11);
-        scopesAre("def f():pass\ndef g():\n def h():pass", 0, 1, 1, 17);
-        scopesAre("return", 0);
+        DUE.scopesAre("a", 0);
+        DUE.scopesAre("def f():pass\nclass A:pass\nlambda:a\n[a for a in a]\n[a]", 0, 1, 2, 3, 4);
+        DUE.scopesAre("def f():\n class A:\n  lambda:[a for a in a]", 0, 1, 10, 19, 28);
+        DUE.scopesAre("[lambda:a for b in lambda:c]", 0, 4, 11, 3);
+        DUE.scopesAre("[[a for a in b] for c in [d for d in e]]", 0, 4, 12, 4);
+        DUE.scopesAre("[[a for a in [b for b in c]] for c in d]", 0, 4, 12, 12);
+        DUE.scopesAre("lambda:lambda:a", 0, 3, 11);
+        DUE.scopesAre("def f():pass\ndef g():\n def h():pass", 0, 1, 1, 17);
+        DUE.scopesAre("return", 0);
         BindingServer x = Due.server("lambda:a");
         for (int k : FAR) {
             DUE.is("scope(" + k + ")", x.scope(k), NONE);
@@ -451,21 +399,12 @@ public final class PromiseTest {
 
     // ---- promises 12 and 13
 
-    private static void namesAre(String text, int... want) {
-        BindingServer x = Due.server(text);
-        DUE.is("names() of " + Due.shown(text), x.names(), want.length);
-        for (int k = 0; k < want.length; k++) {
-            DUE.is("name(" + k + ") of " + Due.shown(text), x.name(k), want[k]);
-        }
-        DUE.is("name behind the last", x.name(want.length), NONE);
-    }
-
     private static void names() {
-        namesAre("1 # a");
-        namesAre("def f(a,b):c=d(e)", 4, 6, 8, 11, 13, 15);
-        namesAre("def f():\n global a,bb\n nonlocal c\n", 4, 17, 19, 32);
-        namesAre("[aa for bb in cc]+(dd:=ee)", 1, 8, 14, 19, 23);
-        namesAre("return\nclass A:import b\nfor c in d:del e", 13, 22, 28, 33, 39);
+        DUE.namesAre("1 # a");
+        DUE.namesAre("def f(a,b):c=d(e)", 4, 6, 8, 11, 13, 15);
+        DUE.namesAre("def f():\n global a,bb\n nonlocal c\n", 4, 17, 19, 32);
+        DUE.namesAre("[aa for bb in cc]+(dd:=ee)", 1, 8, 14, 19, 23);
+        DUE.namesAre("return\nclass A:import b\nfor c in d:del e", 13, 22, 28, 33, 39);
         BindingServer x = Due.server("a");
         for (int k : FAR) {
             DUE.is("name(" + k + ")", x.name(k), NONE);
@@ -476,99 +415,87 @@ public final class PromiseTest {
 
     // ---- promise 14
 
-    private static int what(int kind, int of, int belongs) {
-        return kind + 8 * of + 512 * belongs;
-    }
-
-    private static void resolveIs(String text, int p, int want) {
-        DUE.is("resolve(" + p + ") of " + Due.shown(text), Due.server(text).resolve(p), want);
-    }
-
     private static void kindsOfOccurrences() {
-        resolveIs("a=b", 0, what(5, 0, 0));
-        resolveIs("a=b", 1, NONE);
-        resolveIs("a=b", 2, what(6, 0, 0));
-        resolveIs("a=b", 3, NONE);
-        resolveIs("abc", 0, what(6, 0, 0));
-        resolveIs("abc", 2, what(6, 0, 0));
-        resolveIs("pass", 0, NONE);
-        resolveIs("1", 0, NONE);
+        DUE.resolveIs("a=b", 0, Due.what(5, 0, 0));
+        DUE.resolveIs("a=b", 1, NONE);
+        DUE.resolveIs("a=b", 2, Due.what(6, 0, 0));
+        DUE.resolveIs("a=b", 3, NONE);
+        DUE.resolveIs("abc", 0, Due.what(6, 0, 0));
+        DUE.resolveIs("abc", 2, Due.what(6, 0, 0));
+        DUE.resolveIs("pass", 0, NONE);
+        DUE.resolveIs("1", 0, NONE);
         for (String binding : new String[] {"def a():pass", "class a:pass", "for a in 1:pass",
             "import a", "del a", "a=1", "(a:=1)", "[(a:=1) for b in 1]"}) {
-            resolveIs("a\n" + binding, 0, what(5, 0, 0));
+            DUE.resolveIs("a\n" + binding, 0, Due.what(5, 0, 0));
         }
         for (String other : new String[] {"lambda a:1", "def f(a):1", "[1 for a in 1]", "global a"}) {
-            resolveIs("lambda:a\n" + other, 7, what(6, 0, 1));
+            DUE.resolveIs("lambda:a\n" + other, 7, Due.what(6, 0, 1));
         }
-        resolveIs("def f(a):a", 6, what(1, 1, 1));
-        resolveIs("def f(a):a", 9, what(1, 1, 1));
-        resolveIs("def f(a):a", 4, what(5, 0, 0));
-        resolveIs("def f(a):lambda:a", 6, what(2, 1, 1));
-        resolveIs("def f(a):lambda:a", 16, what(3, 1, 2));
-        resolveIs("class A:b=1", 8, what(1, 1, 1));
-        resolveIs("def f():\n global a\n a=1\na", 17, what(4, 0, 1));
-        resolveIs("def f():\n global a\n a=1\na", 20, what(4, 0, 1));
-        resolveIs("def f():\n global a\n a=1\na", 24, what(5, 0, 0));
-        resolveIs("global a", 7, what(4, 0, 0));
-        resolveIs("global a\na=1", 9, what(4, 0, 0));
-        resolveIs("def f():\n global a\n a\na", 22, what(6, 0, 0));
+        DUE.resolveIs("def f(a):a", 6, Due.what(1, 1, 1));
+        DUE.resolveIs("def f(a):a", 9, Due.what(1, 1, 1));
+        DUE.resolveIs("def f(a):a", 4, Due.what(5, 0, 0));
+        DUE.resolveIs("def f(a):lambda:a", 6, Due.what(2, 1, 1));
+        DUE.resolveIs("def f(a):lambda:a", 16, Due.what(3, 1, 2));
+        DUE.resolveIs("class A:b=1", 8, Due.what(1, 1, 1));
+        DUE.resolveIs("def f():\n global a\n a=1\na", 17, Due.what(4, 0, 1));
+        DUE.resolveIs("def f():\n global a\n a=1\na", 20, Due.what(4, 0, 1));
+        DUE.resolveIs("def f():\n global a\n a=1\na", 24, Due.what(5, 0, 0));
+        DUE.resolveIs("global a", 7, Due.what(4, 0, 0));
+        DUE.resolveIs("global a\na=1", 9, Due.what(4, 0, 0));
+        DUE.resolveIs("def f():\n global a\n a\na", 22, Due.what(6, 0, 0));
         String nonlocal = "def f():\n a=1\n def g():\n  nonlocal a\n  a";
-        resolveIs(nonlocal, 10, what(2, 1, 1));
-        resolveIs(nonlocal, 35, what(3, 1, 2));
-        resolveIs(nonlocal, 39, what(3, 1, 2));
-        resolveIs("[a for a in a]", 1, what(1, 1, 1));
-        resolveIs("[a for a in a]", 7, what(1, 1, 1));
-        resolveIs("[lambda:a for a in a]", 14, what(2, 1, 1));
-        resolveIs("[lambda:a for a in a]", 8, what(3, 1, 2));
-        resolveIs("[a for a in a]", 12, what(6, 0, 0));
-        resolveIs("lambda:[(a:=b) for b in a]", 9, what(1, 1, 1));
-        resolveIs("lambda:[(a:=b)+a for b in a]", 15, what(3, 1, 2));
-        resolveIs("lambda:[(a:=b)+a for b in a]", 9, what(2, 1, 1));
-        resolveIs("lambda:[(a:=b) for b in a]", 24, what(1, 1, 1));
+        DUE.resolveIs(nonlocal, 10, Due.what(2, 1, 1));
+        DUE.resolveIs(nonlocal, 35, Due.what(3, 1, 2));
+        DUE.resolveIs(nonlocal, 39, Due.what(3, 1, 2));
+        DUE.resolveIs("[a for a in a]", 1, Due.what(1, 1, 1));
+        DUE.resolveIs("[a for a in a]", 7, Due.what(1, 1, 1));
+        DUE.resolveIs("[lambda:a for a in a]", 14, Due.what(2, 1, 1));
+        DUE.resolveIs("[lambda:a for a in a]", 8, Due.what(3, 1, 2));
+        DUE.resolveIs("[a for a in a]", 12, Due.what(6, 0, 0));
+        DUE.resolveIs("lambda:[(a:=b) for b in a]", 9, Due.what(1, 1, 1));
+        DUE.resolveIs("lambda:[(a:=b)+a for b in a]", 15, Due.what(3, 1, 2));
+        DUE.resolveIs("lambda:[(a:=b)+a for b in a]", 9, Due.what(2, 1, 1));
+        DUE.resolveIs("lambda:[(a:=b) for b in a]", 24, Due.what(1, 1, 1));
     }
 
     private static void searchPassesClassesAndStops() {
         String throughClass = "def f(a):\n class B:\n  a=1\n  def g():a";
-        resolveIs(throughClass, 6, what(2, 1, 1));
-        resolveIs(throughClass, 22, what(1, 2, 2));
-        resolveIs(throughClass, 36, what(3, 1, 3));
+        DUE.resolveIs(throughClass, 6, Due.what(2, 1, 1));
+        DUE.resolveIs(throughClass, 22, Due.what(1, 2, 2));
+        DUE.resolveIs(throughClass, 36, Due.what(3, 1, 3));
         String stopped = "def f(a):\n def g():\n  global a\n  def h():a";
-        resolveIs(stopped, 6, what(1, 1, 1));
-        resolveIs(stopped, 41, what(6, 0, 3));
+        DUE.resolveIs(stopped, 6, Due.what(1, 1, 1));
+        DUE.resolveIs(stopped, 41, Due.what(6, 0, 3));
         String classDeclares = "def f(a):\n class B:\n  global a\n  lambda:a";
-        resolveIs(classDeclares, 40, what(3, 1, 3));
-        resolveIs(classDeclares, 29, what(4, 0, 2));
+        DUE.resolveIs(classDeclares, 40, Due.what(3, 1, 3));
+        DUE.resolveIs(classDeclares, 29, Due.what(4, 0, 2));
         String passed = "def f(a):\n def g():\n  nonlocal a\n  a=1\n  lambda:a";
-        resolveIs(passed, 48, what(3, 1, 3));
-        resolveIs("def f(a):\n class B:a", 19, what(3, 1, 2));
-        resolveIs("class B:\n a=1\n lambda:a", 22, what(6, 0, 2));
-        resolveIs("a=1\ndef f():\n return a", 21, what(5, 0, 1));
-        resolveIs("def f():\n global a\n def a():pass\ndef g():a", 41, what(5, 0, 3));
+        DUE.resolveIs(passed, 48, Due.what(3, 1, 3));
+        DUE.resolveIs("def f(a):\n class B:a", 19, Due.what(3, 1, 2));
+        DUE.resolveIs("class B:\n a=1\n lambda:a", 22, Due.what(6, 0, 2));
+        DUE.resolveIs("a=1\ndef f():\n return a", 21, Due.what(5, 0, 1));
+        DUE.resolveIs("def f():\n global a\n def a():pass\ndef g():a", 41, Due.what(5, 0, 3));
     }
 
     // ---- promises 15 and 16
 
-    private static void definitionIs(String text, int p, int want) {
-        DUE.is("definition(" + p + ") of " + Due.shown(text), Due.server(text).definition(p), want);
-    }
-
     private static void definitions() {
-        definitionIs("a\na=1\na=2", 0, 2);
-        definitionIs("a\na=1\na=2", 6, 2);
-        definitionIs("a", 0, NONE);
-        definitionIs("a=1", 0, 0);
-        definitionIs("a=1", 1, NONE);
-        definitionIs("def f(ab):\n ab=1\n ab", 18, 6);
-        definitionIs("def f(ab):\n ab=1\n ab", 19, 6);
-        definitionIs("def f():\n global a\n a=1\ndef g():a\na=2", 32, 20);
-        definitionIs("def f():\n global a\n a=1\na=2", 17, 20);
-        definitionIs("global a", 7, NONE);
-        definitionIs("def f():\n def g():\n  nonlocal a\n  a=1\n a=2", 39, 34);
-        definitionIs("a\nimport b", 2, NONE);
+        DUE.definitionIs("a\na=1\na=2", 0, 2);
+        DUE.definitionIs("a\na=1\na=2", 6, 2);
+        DUE.definitionIs("a", 0, NONE);
+        DUE.definitionIs("a=1", 0, 0);
+        DUE.definitionIs("a=1", 1, NONE);
+        DUE.definitionIs("def f(ab):\n ab=1\n ab", 18, 6);
+        DUE.definitionIs("def f(ab):\n ab=1\n ab", 19, 6);
+        DUE.definitionIs("def f():\n global a\n a=1\ndef g():a\na=2", 32, 20);
+        DUE.definitionIs("def f():\n global a\n a=1\na=2", 17, 20);
+        DUE.definitionIs("global a", 7, NONE);
+        DUE.definitionIs("def f():\n def g():\n  nonlocal a\n  a=1\n a=2", 39, 34);
+        DUE.definitionIs("a\nimport b", 2, NONE);
         for (int p : FAR) {
-            definitionIs("a=1", p, NONE);
+            DUE.definitionIs("a=1", p, NONE);
         }
-        definitionIs("a=1\nreturn", 0, NONE);
+        DUE.definitionIs("a=1\nreturn", 0, NONE);
     }
 
     private static void references() {
@@ -600,38 +527,29 @@ public final class PromiseTest {
 
     // ---- promise 17
 
-    private static void renameIs(String text, int p, String name, int want, String after) {
-        BindingServer x = Due.server(text);
-        String call = "rename(" + p + ", " + name + ") of " + Due.shown(text);
-        DUE.is(call, x.rename(p, Due.eight(name)), want);
-        DUE.same(call + " leaves", Due.textOf(x), after);
-        DUE.is(call + " leaves fine", x.check(), Due.server(after).check());
-        DUE.is(call + " leaves tokens", x.tokens(), Due.server(after).tokens());
-    }
-
     private static void renames() {
-        renameIs("a=1\nb=a", 6, "cc", 2, "cc=1\nb=cc");
-        renameIs("abc=1\nb=abc", 8, "x", 2, "x=1\nb=x");
-        renameIs("abc=1\nb=abc", 10, "abc", 2, "abc=1\nb=abc");
-        renameIs("a=1\nb=a", 0, "nonloca", 2, "nonloca=1\nb=nonloca");
-        renameIs("a=1\nb=a", 0, "lambda_1", 2, "lambda_1=1\nb=lambda_1");
-        renameIs("def f(a):\n b=a\n def g():\n  nonlocal b\n  b=a\n", 11, "c",
+        DUE.renameIs("a=1\nb=a", 6, "cc", 2, "cc=1\nb=cc");
+        DUE.renameIs("abc=1\nb=abc", 8, "x", 2, "x=1\nb=x");
+        DUE.renameIs("abc=1\nb=abc", 10, "abc", 2, "abc=1\nb=abc");
+        DUE.renameIs("a=1\nb=a", 0, "nonloca", 2, "nonloca=1\nb=nonloca");
+        DUE.renameIs("a=1\nb=a", 0, "lambda_1", 2, "lambda_1=1\nb=lambda_1");
+        DUE.renameIs("def f(a):\n b=a\n def g():\n  nonlocal b\n  b=a\n", 11, "c",
             3, "def f(a):\n c=a\n def g():\n  nonlocal c\n  c=a\n");
-        renameIs("def f():\n global a\n a=1\na", 24, "xy", 3, "def f():\n global xy\n xy=1\nxy");
-        renameIs("def f(a):a\na=1", 6, "b", 2, "def f(b):b\na=1");
-        renameIs("[a for a in a]", 1, "b", 2, "[b for b in a]");
-        renameIs("def f(a):a\ndef g(b):b", 6, "b", 2, "def f(b):b\ndef g(b):b");
-        renameIs("[1for a in 1]", 6, "b", 1, "[1for b in 1]");
+        DUE.renameIs("def f():\n global a\n a=1\na", 24, "xy", 3, "def f():\n global xy\n xy=1\nxy");
+        DUE.renameIs("def f(a):a\na=1", 6, "b", 2, "def f(b):b\na=1");
+        DUE.renameIs("[a for a in a]", 1, "b", 2, "[b for b in a]");
+        DUE.renameIs("def f(a):a\ndef g(b):b", 6, "b", 2, "def f(b):b\ndef g(b):b");
+        DUE.renameIs("[1for a in 1]", 6, "b", 1, "[1for b in 1]");
         BindingServer x = Due.server("a=1");
         DUE.is("zeros are left out", x.rename(0, 0x6200630000640000L), 1);
         DUE.same("text", Due.textOf(x), "bcd=1");
         DUE.is("global that none binds", Due.server("def f():\n global a\n").rename(17, 'b'), 1);
         String long200 = "a=1\n" + "#".repeat(194) + "\na";
-        renameIs(long200, 0, "b", 2, long200.replace('a', 'b'));
-        renameIs(long200, 0, "bb", FULL, long200);
+        DUE.renameIs(long200, 0, "b", 2, long200.replace('a', 'b'));
+        DUE.renameIs(long200, 0, "bb", FULL, long200);
         String long199 = "a=1\n" + "#".repeat(195);
-        renameIs(long199, 0, "bb", 1, "b" + long199.replace('a', 'b'));
-        renameIs(long199, 0, "bbb", FULL, long199);
+        DUE.renameIs(long199, 0, "bb", 1, "b" + long199.replace('a', 'b'));
+        DUE.renameIs(long199, 0, "bbb", FULL, long199);
     }
 
     private static void renameRefuses() {
@@ -639,21 +557,21 @@ public final class PromiseTest {
         for (String name : new String[] {"", "1", "1a", "a b", "a+", "a\n", "\u0080", "if", "in", "nonlocal",
             "class", "def", "del", "else", "for", "global", "import", "lambda", "pass", "return",
             "while", "-", "\u0001", "a\u00ff", "a[", "a`", "a@", "a{", "a/", "a:"}) {
-            renameIs(text, 0, name, NONE, text);
-            renameIs(text, 2, name, NONE, text);
+            DUE.renameIs(text, 0, name, NONE, text);
+            DUE.renameIs(text, 2, name, NONE, text);
         }
         for (int p : new int[] {1, 3, 4, -1, Integer.MIN_VALUE, Integer.MAX_VALUE}) {
-            renameIs(text, p, "c", NONE, text);
+            DUE.renameIs(text, p, "c", NONE, text);
         }
-        renameIs(text, 2, "c", FIXED, text);
-        renameIs(text, 2, "b", FIXED, text);
-        renameIs("a=1\nreturn", 0, "c", NONE, "a=1\nreturn");
-        renameIs("a=1\n)", 0, "c", NONE, "a=1\n)");
+        DUE.renameIs(text, 2, "c", FIXED, text);
+        DUE.renameIs(text, 2, "b", FIXED, text);
+        DUE.renameIs("a=1\nreturn", 0, "c", NONE, "a=1\nreturn");
+        DUE.renameIs("a=1\n)", 0, "c", NONE, "a=1\n)");
         String missing = "a\n" + "#".repeat(198);
-        renameIs(missing, 0, "bb", FIXED, missing);
+        DUE.renameIs(missing, 0, "bb", FIXED, missing);
         String fullAndConflict = "a=b\n" + "#".repeat(195) + "\n";
-        renameIs(fullAndConflict, 0, "bb", FULL, fullAndConflict);
-        renameIs(fullAndConflict, 0, "b", CONFLICT, fullAndConflict);
+        DUE.renameIs(fullAndConflict, 0, "bb", FULL, fullAndConflict);
+        DUE.renameIs(fullAndConflict, 0, "b", CONFLICT, fullAndConflict);
     }
 
     private static void renameConflicts() {
@@ -672,16 +590,16 @@ public final class PromiseTest {
             {"class A:\n b=1\n c=2\n", "10", "c"},
             {"def f(a):\n def g():\n  global b\n  b=1\n  a\n", "6", "b"},
         };
-        renameIs("a=1\nbb", 0, "bb", CONFLICT, "a=1\nbb");
-        renameIs("aa=1\nb", 0, "b", CONFLICT, "aa=1\nb");
+        DUE.renameIs("a=1\nbb", 0, "bb", CONFLICT, "a=1\nbb");
+        DUE.renameIs("aa=1\nb", 0, "b", CONFLICT, "aa=1\nb");
         for (String[] row : rows) {
-            renameIs(row[0], Integer.parseInt(row[1]), row[2], CONFLICT, row[0]);
+            DUE.renameIs(row[0], Integer.parseInt(row[1]), row[2], CONFLICT, row[0]);
         }
-        renameIs("a=1\ndef f(b):b", 0, "b", 1, "b=1\ndef f(b):b");
-        renameIs("class A:\n b=1\n def f(c):c\n", 10, "c", 1, "class A:\n c=1\n def f(c):c\n");
+        DUE.renameIs("a=1\ndef f(b):b", 0, "b", 1, "b=1\ndef f(b):b");
+        DUE.renameIs("class A:\n b=1\n def f(c):c\n", 10, "c", 1, "class A:\n c=1\n def f(c):c\n");
         BindingServer x = Due.server("def f(a):\n lambda b:a");
         DUE.is("refused", x.rename(6, 'b'), CONFLICT);
-        DUE.is("as before", x.resolve(20), what(3, 1, 2));
+        DUE.is("as before", x.resolve(20), Due.what(3, 1, 2));
         DUE.is("then allowed", x.rename(6, 'c'), 2);
         DUE.is("and again", x.rename(20, Due.eight("dd")), 2);
         DUE.same("text", Due.textOf(x), "def f(dd):\n lambda b:dd");
@@ -711,9 +629,9 @@ public final class PromiseTest {
     private static void answersFollowTheText() {
         BindingServer x = Due.server("a=1\nb=a");
         DUE.is("check()", x.check(), 0);
-        DUE.is("resolve(6)", x.resolve(6), what(5, 0, 0));
+        DUE.is("resolve(6)", x.resolve(6), Due.what(5, 0, 0));
         x.edit(0, 1, 'c');
-        DUE.is("resolve(6) after an edit", x.resolve(6), what(6, 0, 0));
+        DUE.is("resolve(6) after an edit", x.resolve(6), Due.what(6, 0, 0));
         x.edit(3, 1, ')');
         DUE.is("check() after a fault", x.check(), 20);
         DUE.is("place() after a fault", x.place(), 3);
