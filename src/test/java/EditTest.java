@@ -11,7 +11,7 @@ public final class EditTest {
 
     public static void main(String[] args) {
         EditTest test = new EditTest();
-        for (int run = 0; run < 400; run++) {
+        for (int run = 0; run < 700; run++) {
             test.run();
         }
         test.due.end("EditTest");
@@ -25,7 +25,7 @@ public final class EditTest {
     private void run() {
         BindingServer x = new BindingServer();
         StringBuilder text = new StringBuilder();
-        for (int step = 0; step < 100; step++) {
+        for (int step = 0; step < 50; step++) {
             edit(x, text);
             due.is("length()", x.length(), text.length());
             int p = pick(text.length() + 2) - 1;
