@@ -13,6 +13,7 @@ public final class ErrorEdgeTest {
         walrusInClass();
         walrusOnTarget();
         walrusInSource();
+        whereErrorsStand();
         firstByPlace();
         leastNumber();
         fineWhenNone();
@@ -158,6 +159,22 @@ public final class ErrorEdgeTest {
         DUE.fine("[(c:=1) for a in b]", "[a for b in c]+(d:=1)", "(d:=1)+[a for b in c]",
             "[[a for b in c]+(f:=1) for d in e]", "for a in (b:=1):c", "f([a for b in c],(d:=1))",
             "(a:=[b for c in d])", "[a for b in c]\n(d:=1)");
+    }
+
+    private static void whereErrorsStand() {
+        DUE.says("ERRORS of an accepted text, each at an occurrence (or, 7, at the word)");
+        error(1, "lambda abc,  ^abc:1");
+        error(2, "def f(abc):\n  global  b, ^abc");
+        error(3, "abc\nglobal b,^abc");
+        error(4, "nonlocal   ^abc");
+        error(5, "def f(ab):\n def g():\n  global ab\n  nonlocal  ^ab");
+        error(6, "def f():nonlocal  ^abc");
+        error(7, "pass\nif a:  ^return abc");
+        error(8, "class A: [ ( ^abc := 1) for b in c]");
+        error(9, "[(\n^abc:=1) for abc in b]");
+        error(10, "[a for b in ( ^abc:=1)]");
+        DUE.checkIs("lambda a,a:1)", 20, 12);
+        DUE.checkIs("nonlocal a\n(", 20, 12);
     }
 
     private static void firstByPlace() {

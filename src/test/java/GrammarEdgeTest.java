@@ -19,10 +19,12 @@ public final class GrammarEdgeTest {
         bodies();
         expressions();
         items();
+        squareItems();
         walruses();
         comprehensions();
         calls();
         tenInOneAnother();
+        bracketsNest();
         bodiesNest();
         simpleBodiesNest();
         bodiesForThemselves();
@@ -316,29 +318,35 @@ public final class GrammarEdgeTest {
 
     private static void items() {
         DUE.says("item = NAME, or NUMBER, or ( expr )");
-        accepted("a", "1", "(a)", "(1)", "((a))", "(lambda:a)", "[a]", "[[a]]", "[lambda:a]", "[(a)]");
+        accepted("a", "1", "(a)", "(1)", "((a))", "(lambda:a)", "(\na\n)", "(a+b)+c");
         fault("()", 1);
-        fault("[]", 1);
         fault("(a", 2);
-        fault("[a", 2);
         fault("(\n\na\n", 4);
         fault("(a]", 2);
-        fault("[a)", 2);
         fault("(a))", 3);
-        fault("[a]]", 3);
         fault("(a,b)", 2);
-        fault("[a,b]", 2);
         fault("(a b)", 3);
         fault("(a=b)", 2);
-        fault("[a=b]", 2);
         fault("(pass)", 1);
         fault("(a\npass)", 3);
         fault("1 2", 2);
         fault("1a", 1);
+        fault(")", 0);
+    }
+
+    private static void squareItems() {
+        DUE.says("or [ expr ]");
+        accepted("[a]", "[1]", "[[a]]", "[lambda:a]", "[(a)]", "[a+b]+c", "[\na\n]");
+        fault("[]", 1);
+        fault("[a", 2);
+        fault("[a)", 2);
+        fault("[a]]", 3);
+        fault("[a,b]", 2);
+        fault("[a b]", 3);
+        fault("[a=b]", 2);
         fault("a[b]", 1);
         fault("a()[b]", 3);
         fault("[a][b]", 3);
-        fault(")", 0);
         fault("]", 0);
     }
 
@@ -446,6 +454,16 @@ public final class GrammarEdgeTest {
             deepFault(around(level, 9).replace("X", "z(y())"), nine + 3);
             deepFault(around(level, 9).replace("X", "lambda:(z)"), nine + 7);
         }
+    }
+
+    private static void bracketsNest() {
+        DUE.says("of ( ) and [ ] of items");
+        accepted("([".repeat(5) + "a" + "])".repeat(5), "[(".repeat(5) + "a" + ")]".repeat(5),
+            "f([".repeat(5) + "a" + "])".repeat(5), "f((a:=".repeat(5) + "a" + "))".repeat(5));
+        deepFault("([".repeat(5) + "(a)" + "])".repeat(5), 10);
+        deepFault("[(".repeat(5) + "[a]" + ")]".repeat(5), 10);
+        deepFault("f([".repeat(5) + "f(a)" + "])".repeat(5), 16);
+        deepFault("f((a:=".repeat(5) + "f(a)" + "))".repeat(5), 31);
     }
 
     /** Bodies in one another, the innermost still to be written behind so many blanks. */

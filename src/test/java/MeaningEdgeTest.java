@@ -228,6 +228,12 @@ public final class MeaningEdgeTest {
     }
 
     private static void whatResolveAnswers() {
+        DUE.says("1 LOCAL, 2 CELL, 3 FREE, 4 GLOBAL, 5 KNOWN, 6 MISSING");
+        String all = "def f(a,b):\n global c\n lambda:b+d";
+        int[] places = {6, 8, 30, 20, 4, 32};
+        for (int kind = 1; kind <= 6; kind++) {
+            DUE.is("kind at " + places[kind - 1], Due.server(all).resolve(places[kind - 1]) & 7, kind);
+        }
         DUE.says("plus 8 times the scope that it is of, plus 512 times the scope that it belongs to");
         DUE.resolveIs("lambda a:lambda:lambda:a", 23, 3 + 8 + 512 * 3);
         String nested = "lambda:".repeat(9) + "1,";

@@ -20,7 +20,9 @@ public final class RenameEdgeTest {
         emptyIsNoName();
         namesThatAreRight();
         missingIsFixed();
+        theVariableIsMissing();
         fullAt201();
+        tooLong();
         notFineThen();
         standsForSomethingElse();
         mergedVariables();
@@ -172,6 +174,25 @@ public final class RenameEdgeTest {
         refused(FIXED, "a", "^a", "a+^a");
         renamed("^a\na=1", "b", 2, "b\nb=1");
         renamed("lambda:^a\ndef f():\n global a\n a=1", "b", 3, "lambda:b\ndef f():\n global b\n b=1");
+    }
+
+    private static void theVariableIsMissing() {
+        DUE.says("The variable is MISSING.");
+        DUE.is("FIXED", BindingServer.FIXED, -3);
+        DUE.is("MISSING", Due.server("a").rename(0, 'b'), BindingServer.FIXED);
+        String[] others = {"lambda ^a:a", "lambda ^a:lambda:a", "lambda a:lambda:^a", "global ^a", "^a=1"};
+        for (String text : others) {
+            BindingServer x = Due.server(Due.withoutMark(text));
+            DUE.isTrue("not MISSING: " + text, x.rename(Due.markedPlace(text), 'q') > 0);
+        }
+    }
+
+    private static void tooLong() {
+        DUE.says("The text would be too long.");
+        DUE.is("FULL", BindingServer.FULL, -2);
+        String full = "a=1\n" + "#".repeat(196);
+        DUE.is("rename", Due.server(full).rename(0, Due.eight("bb")), BindingServer.FULL);
+        DUE.is("edit", Due.server(full).edit(0, 0, 'b'), BindingServer.FULL);
     }
 
     private static void fullAt201() {

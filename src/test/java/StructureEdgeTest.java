@@ -14,16 +14,20 @@ public final class StructureEdgeTest {
         sums();
         items();
         namesWithoutExtents();
+        inOneAnother();
         differentExtents();
         beginAndEnd();
         smallerOnes();
         noExtent();
         numbersOfScopes();
+        howManyScopes();
         sorts();
+        openScopes();
         liesIn();
         parents();
         noScope();
         allNames();
+        howManyNames();
         belongs();
         walrusBelongs();
         binds();
@@ -170,6 +174,26 @@ public final class StructureEdgeTest {
 
     // ---- promise 9
 
+    private static void inOneAnother() {
+        DUE.says("all of which lie in one another");
+        for (String text : new String[] {"a+(b+c(d)(e)+[f])+g", "x=lambda a:b+c(lambda:d)",
+            "if a+b:\n c=d+e\nelse:f(g)", "[a+b for c in d(e)+f]", "def f(a):\n b+c\n return (d:=e)"}) {
+            BindingServer x = Due.server(text);
+            for (int p = 0; p < text.length(); p++) {
+                int inner = p + 256 * (p + 1);
+                int outer = x.extent(p, 0);
+                for (int smaller = 1; outer != NONE; smaller++) {
+                    boolean around = (outer & 255) <= (inner & 255) && outer >> 8 >= inner >> 8;
+                    DUE.isTrue("extent " + (smaller - 1) + " at " + p + " of " + Due.shown(text)
+                        + " lies around the one before", around);
+                    inner = outer;
+                    outer = x.extent(p, smaller);
+                    DUE.isTrue("and is another", inner != outer);
+                }
+            }
+        }
+    }
+
     private static void differentExtents() {
         DUE.says("Of the different extents");
         extents("^a", "a");
@@ -251,6 +275,35 @@ public final class StructureEdgeTest {
         DUE.is("scopes() of many", many.scopes(), 28);
         DUE.is("the last of many", many.scope(27), 3 + 8 * 26);
         DUE.is("the first of the last nine", many.scope(19), 3);
+    }
+
+    private static void scopesCounted(int count, String... texts) {
+        for (String text : texts) {
+            DUE.is("scopes() of " + Due.shown(text), Due.server(text).scopes(), count);
+        }
+    }
+
+    private static void howManyScopes() {
+        DUE.says("each def, each class, each lambda, each comprehension");
+        scopesCounted(1, "", "a", "[a]", "(a)", "f(a)", "(a:=1)", "if a:b\nelse:c", "for a in b:c", "while a:b");
+        scopesCounted(2, "def f():1", "class A:1", "lambda:1", "[a for b in c]");
+        scopesCounted(3, "def f():1\ndef f():1", "class A:class_=1\nclass A:1", "lambda:lambda:1",
+            "[a for b in c]+[a for b in c]", "def f():\n def f():1", "class A:\n class A:1");
+        DUE.says("How many scopes there are; NONE when the text is not accepted.");
+        scopesCounted(1, "return", "nonlocal a", "global a");
+        scopesCounted(2, "lambda a,a:1", "class A:return");
+        scopesCounted(NONE, "a b", "lambda:", "(", "def f():", " a", "?", "(".repeat(11) + "a" + ")".repeat(11));
+    }
+
+    private static void openScopes() {
+        DUE.says("Module, def, lambda and comprehension are OPEN to the scopes in them, a class is not.");
+        DUE.resolveIs("a=1\nlambda:a", 11, Due.what(5, 0, 1));
+        DUE.resolveIs("def f(a):lambda:a", 16, Due.what(3, 1, 2));
+        DUE.resolveIs("lambda a:lambda:a", 16, Due.what(3, 1, 2));
+        DUE.resolveIs("[lambda:a for a in b]", 8, Due.what(3, 1, 2));
+        DUE.resolveIs("class A:\n a=1\n lambda:a", 22, Due.what(6, 0, 2));
+        DUE.resolveIs("class A:\n a=1\n [a for b in c]", 16, Due.what(6, 0, 2));
+        DUE.resolveIs("class A:\n a=1\n class B:a", 23, Due.what(6, 0, 2));
     }
 
     private static void sorts() {
@@ -345,6 +398,16 @@ public final class StructureEdgeTest {
         DUE.is("the last of them", lines.name(99), 198);
     }
 
+    private static void howManyNames() {
+        DUE.says("How many occurrences there are; NONE when the text is not accepted.");
+        DUE.is("names() of nothing", new BindingServer().names(), 0);
+        DUE.namesAre("a\nreturn b", 0, 9);
+        DUE.namesAre("lambda a,a:1", 7, 9);
+        for (String text : new String[] {"a b", "a)", "(a", "a\n b", "a?", "(".repeat(11) + "a" + ")".repeat(11)}) {
+            DUE.is("names() of " + Due.shown(text), Due.server(text).names(), NONE);
+        }
+    }
+
     private static void belongs() {
         DUE.says("One BELONGS to the scope that it lies in");
         liesInScope(0, "^a", "(^a:=1)", "global ^a", "f((^a:=1))");
@@ -402,7 +465,6 @@ public final class StructureEdgeTest {
             DUE.is("name(0) of " + Due.shown(text), faulty.name(0), NONE);
             DUE.is("name(-1) of " + Due.shown(text), faulty.name(-1), NONE);
         }
-        DUE.namesAre("a\nreturn b", 0, 9);
         x.edit(0, 3, 0);
         DUE.is("names() of what had more", x.names(), 1);
         DUE.is("name(1) of what had more", x.name(1), NONE);

@@ -11,6 +11,7 @@ public final class TokenEdgeTest {
         namesAreLongest();
         wordsAreNoNames();
         numbersAreLongest();
+        signs();
         walrusFromTheLeft();
         blanksSeparate();
         comments();
@@ -21,6 +22,7 @@ public final class TokenEdgeTest {
         lineFeedsEndLines();
         theEndEndsALine();
         linesWithoutTokens();
+        blanksAtTheBeginning();
         rowBeginsWith0();
         moreIndentation();
         sameIndentation();
@@ -99,6 +101,20 @@ public final class TokenEdgeTest {
         DUE.rowIs("7".repeat(200), "NUMBER0-200 NEWLINE200-200 END200-200");
     }
 
+    private static void signs() {
+        DUE.says("SIGNS are := ( ) [ ] , : = +");
+        for (String sign : new String[] {":=", "(", ")", "[", "]", ",", ":", "=", "+"}) {
+            int n = sign.length();
+            DUE.is("token(0) of " + sign, Due.server(sign).token(0), 3 + 4096 * n);
+            DUE.is("token(1) of a" + sign, Due.server("a" + sign).token(1), 3 + 16 + 4096 * (n + 1));
+            DUE.kindsAre(sign + "a", "SIGN NAME");
+            DUE.kindsAre(sign + " " + sign, "SIGN SIGN");
+        }
+        DUE.kindsAre("-*/<>!.;", "BAD BAD BAD BAD BAD BAD BAD BAD");
+        DUE.kindsAre("+=", "SIGN SIGN");
+        DUE.kindsAre("()[],:+", "SIGN SIGN SIGN SIGN SIGN SIGN SIGN");
+    }
+
     private static void walrusFromTheLeft() {
         DUE.says(": and = right behind it are one :=, from the left: ::= is : and :=");
         DUE.rowIs(":=", "SIGN0-2 NEWLINE2-2 END2-2");
@@ -112,11 +128,11 @@ public final class TokenEdgeTest {
         DUE.rowIs(":#=", "SIGN0-1 NEWLINE1-1 END3-3");
         DUE.rowIs("a:", "NAME0-1 SIGN1-2 NEWLINE2-2 END2-2");
         DUE.rowIs("==", "SIGN0-1 SIGN1-2 NEWLINE2-2 END2-2");
-        DUE.rowIs("+" + ":".repeat(198) + "=", "SIGN0-1 " + signs(1, 198) + "SIGN198-200"
+        DUE.rowIs("+" + ":".repeat(198) + "=", "SIGN0-1 " + signRow(1, 198) + "SIGN198-200"
             + " NEWLINE200-200 END200-200");
     }
 
-    private static String signs(int from, int to) {
+    private static String signRow(int from, int to) {
         StringBuilder row = new StringBuilder();
         for (int p = from; p < to; p++) {
             row.append("SIGN").append(p).append('-').append(p + 1).append(' ');
@@ -226,6 +242,16 @@ public final class TokenEdgeTest {
 
     // ---- indentation
 
+    private static void blanksAtTheBeginning() {
+        DUE.says("One with tokens has an INDENTATION, the number of blanks at its beginning");
+        DUE.rowIs("  a  b", "INDENT2-2 NAME2-3 NAME5-6 NEWLINE6-6 DEDENT6-6 END6-6");
+        DUE.rowIs("a  \nb", "NAME0-1 NEWLINE1-1 NAME4-5 NEWLINE5-5 END5-5");
+        DUE.rowIs("   \na", "NAME4-5 NEWLINE5-5 END5-5");
+        DUE.rowIs("  \n a", "INDENT4-4 NAME4-5 NEWLINE5-5 DEDENT5-5 END5-5");
+        DUE.rowIs(" (\n    a)\n b", "INDENT1-1 SIGN1-2 NAME7-8 SIGN8-9 NEWLINE9-9 NAME11-12 NEWLINE12-12"
+            + " DEDENT12-12 END12-12");
+    }
+
     private static void rowBeginsWith0() {
         DUE.says("a row of INDENTS begins with 0 alone");
         DUE.rowIs("a", "NAME0-1 NEWLINE1-1 END1-1");
@@ -321,8 +347,8 @@ public final class TokenEdgeTest {
         DUE.rowIs(" a\n\n  # b\n", "INDENT1-1 NAME1-2 NEWLINE2-2 DEDENT10-10 END10-10");
         DUE.rowIs(" a  ", "INDENT1-1 NAME1-2 NEWLINE2-2 DEDENT4-4 END4-4");
         DUE.rowIs("  ", "END2-2");
-        DUE.says("stand where the first token of their line begins; NEWLINE has none and stands where"
-            + " the token before it ends");
+        DUE.says("INDENT, DEDENT and BAD here have no length and stand where the first token of their line"
+            + " begins; NEWLINE has none and stands where the token before it ends");
         DUE.rowIs("\n\n  ab  \n\n c", "INDENT4-4 NAME4-6 NEWLINE6-6 DEDENT11-11 BAD11-11 NAME11-12"
             + " NEWLINE12-12 END12-12");
     }
@@ -347,7 +373,8 @@ public final class TokenEdgeTest {
 
     private static void whatATokenAnswers() {
         DUE.says("its kind (0 NAME, 1 NUMBER, 2 WORD, 3 SIGN, 4 NEWLINE, 5 INDENT, 6 DEDENT, 7 END,"
-            + " 8 BAD), plus 16 times the place where it begins, plus 4096 times the one where it ends");
+            + " 8 BAD), plus 16 times the place where it begins, plus 4096 times the one where it ends"
+            + " (behind its last character)");
         String text = " ab 12 if\n:=?";
         tokenIs(text, 0, 5, 1, 1);
         tokenIs(text, 1, 0, 1, 3);
