@@ -371,7 +371,8 @@ public final class GrammarEdgeTest {
         DUE.says("or [ expr for NAME in expr ] (a COMPREHENSION; the second expr is its SOURCE)");
         accepted("[a for b in c]", "[lambda:a for b in lambda:c]", "[a+b for c in d+e]", "[a for b in c]()",
             "[[a for b in c] for d in e]", "[a for b in [c for d in e]]", "[\na\nfor\nb\nin\nc\n]",
-            "[[a] for b in [c]]", "[f(a) for b in f(c)]", "[1for a in 1]");
+            "[[a] for b in [c]]", "[f(a) for b in f(c)]", "[1for a in 1]", "[a]+[b for c in d]",
+            "[a]([b for c in d])", "[a]\nfor b in c:d", "[[a]+[b for c in d]]");
         fault("[for b in c]", 1);
         fault("[a for]", 6);
         fault("[a for 1 in c]", 7);

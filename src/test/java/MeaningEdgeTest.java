@@ -65,7 +65,8 @@ public final class MeaningEdgeTest {
             "class A:\n a=1\n [^a for b in c]", "class A:\n def f():^a\n def a():1");
         stands(KNOWN, 0, 2, "a=1\nclass A:\n a=2\n lambda:^a");
         stands(FREE, 1, 3, "def f(a):\n class B:\n  a=1\n  def g():^a", "def f(a):\n class B:\n  lambda:^a",
-            "def f(a):\n class B:\n  global a\n  lambda:^a", "def f(a):\n class B:\n  nonlocal a\n  lambda:^a",
+            "def f(a):\n class B:\n  global a\n  lambda:^a",
+            "def f(a):\n class B:\n  nonlocal a\n  lambda:^a",
             "def f(a):\n class B:\n  global a\n  def g():nonlocal ^a", "def f(a):\n class B:\n  class C:^a");
         stands(LOCAL, 1, 1, "class A:\n ^a=1\n lambda:a");
         stands(LOCAL, 1, 1, "class A:\n a=1\n [b for b in ^a]");
@@ -111,7 +112,8 @@ public final class MeaningEdgeTest {
         DUE.says("If in s the name is declared global: GLOBAL (4), of scope 0.");
         stands(GLOBAL, 0, 0, "global ^a", "global a\n^a", "global a\n^a=1", "global b,^a");
         stands(GLOBAL, 0, 1, "def f():global ^a", "def f():\n global a\n ^a", "def f():\n global a\n ^a=1",
-            "class A:\n global a\n ^a=1", "def f():\n global a\n del ^a", "def f():\n global a\n for ^a in b:1",
+            "class A:\n global a\n ^a=1", "def f():\n global a\n del ^a",
+            "def f():\n global a\n for ^a in b:1",
             "def f():\n global a\n [(^a:=1) for b in c]");
         stands(GLOBAL, 0, 2, "def f(a):\n def g():\n  global ^a", "def f(a):\n def g():\n  global a\n  ^a");
         stands(KNOWN, 0, 0, "def f():global a\n^a=1", "def f():\n global a\n a=1\n^a");
@@ -135,7 +137,8 @@ public final class MeaningEdgeTest {
         DUE.says("Otherwise, if s is not the module and an occurrence that belongs to s binds it: LOCAL (1)"
             + " of scope s");
         stands(LOCAL, 1, 1, "def f(^a):1", "def f(a):^a", "def f():\n ^a\n a=1", "lambda ^a:1", "lambda a:^a",
-            "class A:^a=1", "class A:\n ^a\n import a", "[^a for a in b]", "[a for ^a in b]", "def f():del ^a",
+            "class A:^a=1", "class A:\n ^a\n import a", "[^a for a in b]", "[a for ^a in b]",
+            "def f():del ^a",
             "def f():\n if ^a:\n  for a in b:1", "lambda:(^a:=1)", "lambda:[(^a:=1) for b in c]",
             "a=1\ndef f(a):^a", "def f():\n [b for b in ^a]\n a=1");
         stands(LOCAL, 2, 2, "def f(a):\n def g(a):^a", "lambda a:lambda a:^a", "def f(a):\n class B:^a=1",
@@ -182,8 +185,8 @@ public final class MeaningEdgeTest {
     private static void missing() {
         DUE.says("if there is none: MISSING (6)");
         for (String other : new String[] {"1", "a", "lambda a:1", "def f(a):1", "def f():a=1", "class A:a=1",
-            "[1 for a in b]", "lambda:(a:=1)", "def f():global a", "aa=1", "A=1", "b=a", "lambda:[(a:=1) for b in c]",
-            "def f(a):\n def g():\n  nonlocal a\n  a=1", "class A:import a"}) {
+            "[1 for a in b]", "lambda:(a:=1)", "def f():global a", "aa=1", "A=1", "b=a",
+            "lambda:[(a:=1) for b in c]", "def f(a):\n def g():\n  nonlocal a\n  a=1", "class A:import a"}) {
             stands(MISSING, 0, 0, "^a\n" + other);
             stands(MISSING, 0, 1, "lambda:^a\n" + other);
         }
@@ -249,7 +252,8 @@ public final class MeaningEdgeTest {
             DUE.is("definition(" + p + ")", x.definition(p), NONE);
             DUE.is("reference(" + p + ", 0)", x.reference(p, 0), NONE);
         }
-        for (String text : new String[] {"a=1\n)", "a=1\nreturn", "a=1\nglobal a", "a=1\n" + "(".repeat(11)}) {
+        for (String text : new String[] {"a=1\n)", "a=1\nreturn", "a=1\nglobal a",
+            "a=1\n" + "(".repeat(11)}) {
             BindingServer y = Due.server(text);
             DUE.is("resolve(0) of " + Due.shown(text), y.resolve(0), NONE);
             DUE.is("definition(0) of " + Due.shown(text), y.definition(0), NONE);

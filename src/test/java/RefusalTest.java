@@ -153,8 +153,8 @@ public final class RefusalTest {
         }
     }
 
-    private static final int[] ASKED = {22, 'a', 15, 4096 * 22 + 16 * 21, 0, NONE, 11 + 256 * 22, 3, 3 + 8, 4, 18,
-        Due.what(3, 1, 2), 6, 21, 2};
+    private static final int[] ASKED = {22, 'a', 15, 4096 * 22 + 16 * 21, 0, NONE, 11 + 256 * 22, 3,
+        3 + 8, 4, 18, Due.what(3, 1, 2), 6, 21, 2};
 
     private static int ask(BindingServer x, int call) {
         switch (call) {
@@ -214,6 +214,12 @@ public final class RefusalTest {
             }
             DUE.answersAsNew("asked between, " + Due.shown(text), asked, text);
         }
+        BindingServer cut = Due.server("abc+d");
+        cut.check();
+        cut.edit(1, 4, 0);
+        DUE.answersAsNew("asked before a cut", cut, "a");
+        cut.edit(0, 1, '#');
+        DUE.answersAsNew("asked before another", cut, "#");
         BindingServer renamed = Due.server("xyz=1\nlambda a:xyz+a");
         renamed.rename(0, 'b');
         DUE.answersAsNew("by a renaming", renamed, "b=1\nlambda a:b+a");

@@ -201,6 +201,8 @@ public final class StructureEdgeTest {
         extents("^f()", "f", "f()");
         extents("^lambda:a", "lambda:a");
         extents("if a:\n ^b", "b", "if a:\n b");
+        extents("class A:\n ^b", "b", "class A:\n b");
+        extents("class A:\n ^(b)", "(b)", "class A:\n (b)");
     }
 
     private static void beginAndEnd() {
@@ -267,7 +269,8 @@ public final class StructureEdgeTest {
         DUE.scopesAre("[[a for b in c] for d in [e for f in g]]", 0, 4, 4 + 8, 4);
         DUE.scopesAre("[a for b in [c for d in e]]", 0, 4, 4);
         DUE.scopesAre("(lambda:1)+[a for b in c]+(lambda:2)", 0, 3, 4, 3);
-        DUE.scopesAre("def f():\n lambda:1\nclass A:\n [a for b in c]\nlambda:2", 0, 1, 3 + 8, 2, 4 + 8 * 3, 3);
+        DUE.scopesAre("def f():\n lambda:1\nclass A:\n [a for b in c]\nlambda:2", 0, 1, 3 + 8, 2,
+            4 + 8 * 3, 3);
         DUE.scopesAre("[[[a for b in c] for d in e] for f in g]", 0, 4, 4 + 8, 4 + 16);
         DUE.scopesAre("[[a for b in [c for d in e]] for f in g]", 0, 4, 4 + 8, 4 + 8);
         String three = "lambda:".repeat(9) + "1";
@@ -285,14 +288,17 @@ public final class StructureEdgeTest {
 
     private static void howManyScopes() {
         DUE.says("each def, each class, each lambda, each comprehension");
-        scopesCounted(1, "", "a", "[a]", "(a)", "f(a)", "(a:=1)", "if a:b\nelse:c", "for a in b:c", "while a:b");
-        scopesCounted(2, "def f():1", "class A:1", "lambda:1", "[a for b in c]");
+        scopesCounted(1, "", "a", "[a]", "(a)", "f(a)", "(a:=1)", "if a:b\nelse:c", "for a in b:c",
+            "while a:b");
+        scopesCounted(2, "def f():1", "class A:1", "lambda:1", "[a for b in c]", "[a]+[b for c in d]",
+            "[a]([b for c in d])", "[[a for b in c]]");
         scopesCounted(3, "def f():1\ndef f():1", "class A:class_=1\nclass A:1", "lambda:lambda:1",
             "[a for b in c]+[a for b in c]", "def f():\n def f():1", "class A:\n class A:1");
         DUE.says("How many scopes there are; NONE when the text is not accepted.");
         scopesCounted(1, "return", "nonlocal a", "global a");
         scopesCounted(2, "lambda a,a:1", "class A:return");
-        scopesCounted(NONE, "a b", "lambda:", "(", "def f():", " a", "?", "(".repeat(11) + "a" + ")".repeat(11));
+        scopesCounted(NONE, "a b", "lambda:", "(", "def f():", " a", "?",
+            "(".repeat(11) + "a" + ")".repeat(11));
     }
 
     private static void openScopes() {
@@ -403,7 +409,8 @@ public final class StructureEdgeTest {
         DUE.is("names() of nothing", new BindingServer().names(), 0);
         DUE.namesAre("a\nreturn b", 0, 9);
         DUE.namesAre("lambda a,a:1", 7, 9);
-        for (String text : new String[] {"a b", "a)", "(a", "a\n b", "a?", "(".repeat(11) + "a" + ")".repeat(11)}) {
+        for (String text : new String[] {"a b", "a)", "(a", "a\n b", "a?",
+            "(".repeat(11) + "a" + ")".repeat(11)}) {
             DUE.is("names() of " + Due.shown(text), Due.server(text).names(), NONE);
         }
     }
@@ -417,7 +424,8 @@ public final class StructureEdgeTest {
     private static void walrusBelongs() {
         DUE.says("the NAME before := in a comprehension (not in its source) belongs to the nearest scope"
             + " around it that is no comprehension");
-        liesInScope(0, "[(^a:=1) for b in c]", "[[(^a:=1) for b in c] for d in e]", "[f((^a:=1)) for b in c]");
+        liesInScope(0, "[(^a:=1) for b in c]", "[[(^a:=1) for b in c] for d in e]",
+            "[f((^a:=1)) for b in c]");
         liesInScope(1, "lambda:[(^a:=1) for b in c]", "def f():[[(^a:=1) for b in c] for d in e]",
             "[(a:=^b) for b in c]");
         liesInScope(2, "[lambda:(^a:=1) for b in c]", "[lambda:[(^a:=1) for b in c] for d in e]",
@@ -439,7 +447,8 @@ public final class StructureEdgeTest {
             "def f(^a):1", "def f(b,^a):1", "lambda ^a:1", "lambda b,^a:1", "^a=1", "(^a:=1)",
             "[(^a:=1) for b in c]");
         binds(false, "^a", "^a()", "f(^a)", "b=^a", "(b:=^a)", "for b in ^a:1", "[1 for b in ^a]",
-            "[^a for b in c]", "if ^a:1", "while ^a:1", "def f():return ^a", "lambda:^a", "1+^a", "(^a)", "[^a]");
+            "[^a for b in c]", "if ^a:1", "while ^a:1", "def f():return ^a", "lambda:^a", "1+^a", "(^a)",
+            "[^a]");
     }
 
     private static void declares() {
